@@ -20,38 +20,34 @@ public final class CarHouse {
     private static final int WATCHES = 30;
     private static final int SAID = 100;
 
-    private final char[] letters;
-    private final int[] said;
-    private final Car car;
     private final Reader reader;
-    private int length;
+    private final Car car;
+    private final int[] said;
     private int saidCount;
     private int systems;
-    private int faultPlace;
     private boolean made;
 
     public CarHouse() {
-        letters = new char[LETTERS];
+        reader = new Reader();
+        car = reader.car;
         said = new int[SAID];
-        car = new Car();
-        reader = new Reader(letters, car);
     }
 
     public void text(int a, int b, int c, int d) throws IllegalStateException {
-        if (length + lettersIn(a) + lettersIn(b) + lettersIn(c) + lettersIn(d) > LETTERS) {
+        if (reader.length + lettersIn(a) + lettersIn(b) + lettersIn(c) + lettersIn(d) > LETTERS) {
             throw new IllegalStateException("the text has at most 6000 characters");
         }
-        append(a);
-        append(b);
-        append(c);
-        append(d);
+        reader.append(a);
+        reader.append(b);
+        reader.append(c);
+        reader.append(d);
     }
 
     public int cut(int n) throws IllegalArgumentException {
-        if (n < 0 || n > length) {
+        if (n < 0 || n > reader.length) {
             throw new IllegalArgumentException("the text has not so many characters");
         }
-        length = n;
+        reader.length = n;
         return n;
     }
 
@@ -61,17 +57,16 @@ public final class CarHouse {
         }
         systems++;
         car.clear();
-        int fault = reader.read(length);
-        faultPlace = reader.place;
-        made = fault == 0;
+        reader.readText();
+        made = reader.fault == 0;
         if (made) {
             car.join();
         }
-        return fault;
+        return reader.fault;
     }
 
     public int place() {
-        return faultPlace;
+        return reader.place;
     }
 
     public int count(int what) throws IllegalArgumentException, IllegalStateException {
@@ -309,17 +304,7 @@ public final class CarHouse {
         return n;
     }
 
-    private void append(int four) {
-        for (int shift = 24; shift >= 0; shift -= 8) {
-            int letter = four >>> shift & 255;
-            if (letter != 0 && length < LETTERS) {
-                letters[length] = (char) letter;
-                length++;
-            }
-        }
-    }
-
-    /** The text, word by word: the first fault, or a car that has all that its lines say. */
+    /** The text, and the car that it describes, read word by word up to the first fault. */
     private static final class Reader {
         private static final String LINES = "controller task chart state edge after datum enter leave take signal protect read watch";
         private static final String KINDS = "plain split history deep fork join";
@@ -331,8 +316,8 @@ public final class CarHouse {
         private static final int OF_ALL = 0;
         private static final int LARGEST = 999999999;
 
-        private final char[] text;
-        private final Car car;
+        private final char[] letters = new char[LETTERS];
+        private final Car car = new Car();
         private final int[][] name = new int[5][NAMES];
         private int names;
         private int length;
@@ -346,29 +331,34 @@ public final class CarHouse {
         private int fault;
         private int place;
 
-        Reader(char[] text, Car car) {
-            this.text = text;
-            this.car = car;
+        void append(int four) {
+            for (int shift = 24; shift >= 0; shift -= 8) {
+                int letter = four >>> shift & 255;
+                if (letter != 0 && length < LETTERS) {
+                    letters[length] = (char) letter;
+                    length++;
+                }
+            }
         }
 
-        int read(int letters) {
-            length = letters;
+        void readText() {
             names = 0;
             fault = 0;
             place = 0;
-            for (int from = 0; from < length && fault == 0; from = lineEnd + 1) {
-                at = from;
+            int from = 0;
+            for (int lines = 0; lines < LETTERS && from < length && fault == 0; lines++) {
                 findLineEnd(from);
+                at = from;
                 nextWord();
                 firstWord = word;
                 if (size > 0) {
                     readLine();
                 }
+                from = lineEnd + 1;
             }
             if (fault == 0) {
                 judgeWhole();
             }
-            return fault;
         }
 
         /** More than 500 activations, the other fault of whole texts, cannot be: 12 tasks have at most 40 each. */
@@ -385,23 +375,23 @@ public final class CarHouse {
 
         private void findLineEnd(int from) {
             lineEnd = from;
-            while (lineEnd < length && text[lineEnd] != 10) {
+            while (lineEnd < length && letters[lineEnd] != 10) {
                 lineEnd++;
             }
         }
 
         /** A missing word has no size, and its place is the end of the line. */
         private void nextWord() {
-            while (at < lineEnd && text[at] == ' ') {
+            while (at < lineEnd && letters[at] == ' ') {
                 at++;
             }
-            if (at >= lineEnd || text[at] == '#') {
+            if (at >= lineEnd || letters[at] == '#') {
                 word = lineEnd;
                 size = 0;
                 return;
             }
             word = at;
-            while (at < lineEnd && text[at] != ' ') {
+            while (at < lineEnd && letters[at] != ' ') {
                 at++;
             }
             size = at - word;
@@ -745,7 +735,7 @@ public final class CarHouse {
 
         private boolean isSame(int other) {
             for (int i = 0; i < size; i++) {
-                if (text[other + i] != text[word + i]) {
+                if (letters[other + i] != letters[word + i]) {
                     return false;
                 }
             }
@@ -758,7 +748,7 @@ public final class CarHouse {
 
         private boolean standsAt(String told, int from) {
             for (int i = 0; i < size; i++) {
-                if (from + i >= told.length() || told.charAt(from + i) != text[word + i]) {
+                if (from + i >= told.length() || told.charAt(from + i) != letters[word + i]) {
                     return false;
                 }
             }
@@ -782,11 +772,11 @@ public final class CarHouse {
         }
 
         private boolean isName() {
-            if (size < 1 || size > 10 || !isLetter(text[word])) {
+            if (size < 1 || size > 10 || !isLetter(letters[word])) {
                 return false;
             }
             for (int i = 1; i < size; i++) {
-                if (!isLetter(text[word + i]) && !isDigit(text[word + i])) {
+                if (!isLetter(letters[word + i]) && !isDigit(letters[word + i])) {
                     return false;
                 }
             }
@@ -794,12 +784,12 @@ public final class CarHouse {
         }
 
         private boolean isNumber() {
-            int sign = size > 0 && text[word] == '-' ? 1 : 0;
+            int sign = size > 0 && letters[word] == '-' ? 1 : 0;
             if (size - sign < 1 || size - sign > 9) {
                 return false;
             }
             for (int i = sign; i < size; i++) {
-                if (!isDigit(text[word + i])) {
+                if (!isDigit(letters[word + i])) {
                     return false;
                 }
             }
@@ -807,10 +797,10 @@ public final class CarHouse {
         }
 
         private int numberAtHand() {
-            int sign = text[word] == '-' ? 1 : 0;
+            int sign = letters[word] == '-' ? 1 : 0;
             int v = 0;
             for (int i = sign; i < size; i++) {
-                v = 10 * v + (text[word + i] - '0');
+                v = 10 * v + (letters[word + i] - '0');
             }
             return sign == 1 ? -v : v;
         }
@@ -844,7 +834,7 @@ public final class CarHouse {
         private final Codes codes = new Codes();
         private final Troubles troubles = new Troubles();
         private final Transfer transfer = new Transfer();
-        private final Questions questions;
+        private final Questions questions = new Questions();
         private final int[] chartOf = new int[TASKS];
         private final boolean[] silent = new boolean[CONTROLLERS];
         private final int[][] read = new int[5][READS];
@@ -861,7 +851,6 @@ public final class CarHouse {
             for (int x = 0; x < CHARTS; x++) {
                 charts[x] = new Chart();
             }
-            questions = new Questions(charts, troubles, codes);
         }
 
         void clear() {
@@ -1020,7 +1009,7 @@ public final class CarHouse {
                 return;
             }
             if (transfer.isQuestion(whole)) {
-                questions.makeReply(controller, transfer.octets[whole], transfer.message[Transfer.SIZE][whole]);
+                questions.makeReply(this, controller, transfer.octets[whole], transfer.message[Transfer.SIZE][whole]);
                 transfer.make(controller, false, questions.reply, questions.size);
             } else if (controller == asked) {
                 answer = whole;
@@ -3103,9 +3092,6 @@ public final class CarHouse {
         private static final int MOST_WRONG = 3, RIGHTS_KEY = 16;
         private static final int SEED_STEP = (int) 2654435761L;
 
-        private final Chart[] charts;
-        private final Troubles troubles;
-        private final Codes codes;
         private final int[] session = new int[CONTROLLERS];
         private final boolean[] rights = new boolean[CONTROLLERS];
         private final boolean[] seeded = new boolean[CONTROLLERS];
@@ -3115,12 +3101,6 @@ public final class CarHouse {
         private final int[] reply = new int[REPLY];
         private int size;
         private int seeds;
-
-        Questions(Chart[] charts, Troubles troubles, Codes codes) {
-            this.charts = charts;
-            this.troubles = troubles;
-            this.codes = codes;
-        }
 
         void clear() {
             seeds = 0;
@@ -3132,7 +3112,7 @@ public final class CarHouse {
             }
         }
 
-        void makeReply(int c, int[] q, int n) {
+        void makeReply(Car car, int c, int[] q, int n) {
             size = 0;
             if (!isKnown(q[0])) {
                 refuse(q[0], NO_SERVICE);
@@ -3141,17 +3121,17 @@ public final class CarHouse {
             } else if (q[0] == SESSION) {
                 openSession(c, q[1]);
             } else if (q[0] == READ) {
-                readDatum(c, q[1], q[2]);
+                readDatum(car.charts, c, q[1], q[2]);
             } else if (q[0] == WRITE) {
-                writeDatum(c, q);
+                writeDatum(car.charts, c, q);
             } else if (q[0] == LIST) {
-                listTroubles();
+                listTroubles(car.troubles);
             } else if (q[0] == RIGHTS && q[1] == 1) {
                 openSeed(c);
             } else if (q[0] == RIGHTS) {
-                tryKey(c, q);
+                tryKey(car.codes, c, q);
             } else {
-                troubles.forgetAll();
+                car.troubles.forgetAll();
                 put(CLEAR + YES);
             }
         }
@@ -3195,12 +3175,12 @@ public final class CarHouse {
             put(s);
         }
 
-        private boolean hasDatum(int c, int x, int d) {
+        private static boolean hasDatum(Chart[] charts, int c, int x, int d) {
             return x >= 1 && x <= CHARTS && charts[x - 1].controller == c && d < DATA;
         }
 
-        private void readDatum(int c, int x, int d) {
-            if (!hasDatum(c, x, d)) {
+        private void readDatum(Chart[] charts, int c, int x, int d) {
+            if (!hasDatum(charts, c, x, d)) {
                 refuse(READ, NOT_THERE);
                 return;
             }
@@ -3212,12 +3192,12 @@ public final class CarHouse {
             }
         }
 
-        private void writeDatum(int c, int[] q) {
+        private void writeDatum(Chart[] charts, int c, int[] q) {
             if (!rights[c]) {
                 refuse(WRITE, NO_RIGHTS);
                 return;
             }
-            if (!hasDatum(c, q[1], q[2])) {
+            if (!hasDatum(charts, c, q[1], q[2])) {
                 refuse(WRITE, NOT_THERE);
                 return;
             }
@@ -3231,7 +3211,7 @@ public final class CarHouse {
             put(q[2]);
         }
 
-        private void listTroubles() {
+        private void listTroubles(Troubles troubles) {
             put(LIST + YES);
             put(troubles.entries);
             for (int e = 0; e < troubles.entries; e++) {
@@ -3259,7 +3239,7 @@ public final class CarHouse {
             }
         }
 
-        private void tryKey(int c, int[] q) {
+        private void tryKey(Codes codes, int c, int[] q) {
             if (wrong[c] >= MOST_WRONG) {
                 refuse(RIGHTS, TOO_MANY_KEYS);
                 return;
