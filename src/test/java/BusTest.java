@@ -14,6 +14,8 @@ public final class BusTest {
         listenerErrors();
         flips();
         overload();
+        thirdOfThePause();
+        firstOfARow();
         silence();
         noRoom();
         Checks.end("BusTest");
@@ -280,6 +282,45 @@ public final class BusTest {
         // The others, who pause by then, see the flag from 37 on.
         told(over, 4, 5, 1, 37);
         told(over, 5, 5, 2, 37);
+    }
+
+    private static void thirdOfThePause() {
+        CarHouse x = with("signal s 16 c d 500", "signal q 64 c e 500");
+        x.run(501);
+        int end = lastEnd(x);
+        x.flip(0, end + 3);
+        x.run(3);
+        // A 0 that only a sees counts as the first bit of its next frame.
+        state(x, 0, SENDING);
+        state(x, 1, QUIET);
+        Checks.due("nobody put it", 1, () -> x.bit(end + 3));
+        x.run(1);
+        state(x, 1, LISTENING);
+        CarHouse y = with("signal s 16 c d 500", "signal q 64 c e 500");
+        y.flip(1, end + 3);
+        y.run(end + 4);
+        state(y, 0, QUIET);
+        state(y, 1, LISTENING);
+    }
+
+    /** Of two frames of one identifier that wait, the one with the lesser octets goes first, though it was made later. */
+    private static void firstOfARow() {
+        CarHouse x = Checks.carOf("controller a", "controller b", "task t a 1 1000 0 1", "chart c t 1", "datum c d 9", "state c s top plain",
+            "edge c s s time", "take c d 5", "after c s 900", "task u b 1 20000 0 1", "chart x u 1", "datum x g 0", "signal s 8 c d 600", "read s x g 1");
+        for (int t = 590; t < 1250; t += 8) {
+            x.flip(1, t);
+        }
+        x.run(1250);
+        Checks.due("two frames wait", 2, () -> x.node(0, 1));
+        int t = x.time();
+        x.run(400);
+        Checks.due("both came", 2, () -> x.node(1, 2));
+        Checks.due("5 of 1200 before 9 of 600", 9, () -> x.value(1, 0));
+        Checks.due("two events", 2, () -> x.chart(1, 1));
+        while (x.bit(t) == 1 || !Checks.frameAt(x, t).startsWith("64 | ") || !Checks.frameAt(x, t).endsWith("right")) {
+            t++;
+        }
+        Checks.same("the first one", "64 | 5 0 0 0 0 0 0 0 | right", Checks.frameAt(x, t));
     }
 
     private static void silence() {

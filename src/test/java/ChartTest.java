@@ -201,6 +201,19 @@ public final class ChartTest {
         is(marked, 0, 2);
         is(marked, 4, 8);
         tells(marked, TAKEN, 3);
+        // The fork leads out of o, so o is left, too, though the fork and the edge's state are in it.
+        CarHouse out = chart(5, "datum x n 0", "state x o top plain", "state x i o plain", "state x f o fork", "state x z top plain", "state x y z plain",
+            "state x w z plain", "edge x i f 0", "edge x f w 0", "leave x o n 1 more", "enter x z n 10 more");
+        out.run(2);
+        is(out, 0, 6);
+        holds(out, 0, 11);
+        // The join waits for states in two regions, so the edge from it leaves the split one, though it leads into it again.
+        CarHouse again = chart(1, "datum x n 0", "state x s top split", "state x r1 s plain", "state x r2 s plain", "state x a1 r1 plain",
+            "state x b1 r1 plain", "state x a2 r2 plain", "state x j r1 join", "edge x a1 j 0", "edge x a2 j 0", "edge x j b1 0", "enter x s n 1 more");
+        again.run(2);
+        is(again, 2, 5);
+        is(again, 3, 6);
+        holds(again, 0, 2);
         CarHouse lonely = chart(5, "state x a top plain", "state x f top fork", "state x j top join", "state x b top plain", "edge x a f time",
             "after x a 10", "edge x j b 0");
         // A fork without edges leads to the default; a join without edges is never ready.
@@ -291,6 +304,18 @@ public final class ChartTest {
         for (int datum = 2; datum < 32; datum++) {
             holds(x, datum, 0);
         }
+        // The deepest is left first, of one depth the one with the least number; they are entered the other way.
+        CarHouse order = chart(1, "datum x out 0", "datum x in 0", "state x o top plain", "state x s o split", "state x a s plain", "state x b s plain",
+            "state x c b plain", "state x z top plain", "edge x o z 0", "leave x o out 6", "leave x s out 5 more", "leave x a out 100 more",
+            "leave x b out 30 more", "leave x c out 1", "enter x o in 1", "enter x s in 10 more", "enter x a in 5", "enter x b in 7 more",
+            "enter x c in 100 more");
+        order.run(2);
+        holds(order, 0, 6);
+        holds(order, 1, 112);
+        CarHouse sides = chart(1, "datum x out 0", "state x o top split", "state x a o plain", "state x b o plain", "state x c a plain",
+            "state x z top plain", "edge x o z 0", "leave x a out 4", "leave x b out 10 more", "leave x c out 50", "leave x o out 1000 more");
+        sides.run(2);
+        holds(sides, 0, 1014);
     }
 
     /**

@@ -335,6 +335,20 @@ public final class TesterTest {
         Checks.due("answers counted", 50, () -> x.counted(3));
         x.system();
         Checks.due("a new car has messages", 2, () -> x.ask(0));
+        // One question without an answer, 49 with: the next one would be the hundredth message, and none is left for its answer.
+        CarHouse odd = Checks.carOf("controller a");
+        Checks.say(odd, 1, 2, 3, 4, 5, 6, 7, 8);
+        odd.ask(0);
+        for (int t = 10; t < 1000; t += 8) {
+            odd.flip(0, t);
+        }
+        odd.run(1400);
+        Checks.due("ended", 1, () -> odd.counted(4));
+        for (int i = 0; i < 49; i++) {
+            Checks.same("question " + i, "80 2", Checks.asked(odd, 0, 260, 16, 2));
+        }
+        Checks.say(odd, 16, 1);
+        Checks.thrown("99 messages were made", IllegalStateException.class, () -> odd.ask(0));
     }
 
     /** A question whose sender ended is never answered; the next one is, when b hears the bus again. */
