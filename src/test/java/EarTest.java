@@ -308,5 +308,16 @@ public final class EarTest {
         Checks.due("b took the question twice", 2, () -> x.node(1, 2));
         Checks.due("the tester took one answer", 1, () -> x.node(2, 2));
         Checks.same("the answer", "80 2", Checks.answerOf(x));
+        // At the sixth end b sees 0: a takes the frame, but it is not for a, so nothing is answered yet.
+        CarHouse y = Checks.carOf(CAR);
+        y.flip(1, twin.time() - 2);
+        Checks.say(y, 16, 2);
+        y.ask(1);
+        y.run(twin.time() + 5);
+        Checks.due("a took the question", 1, () -> y.node(0, 2));
+        Checks.due("b did not", 0, () -> y.node(1, 2));
+        Checks.due("b has nothing to send", 0, () -> y.node(1, 1));
+        y.run(600);
+        Checks.same("it comes again", "80 2", Checks.answerOf(y));
     }
 }
