@@ -934,7 +934,7 @@ public final class CarHouse {
                 return;
             }
             for (int f = 0; f < frames.frames; f++) {
-                if (frames.isDue(f, t) && !silent[frames.frame[Frames.OWNER][f]]) {
+                if (frames.takeTurn(f, t) && !silent[frames.frame[Frames.OWNER][f]]) {
                     sendFrame(f);
                 }
             }
@@ -1020,23 +1020,26 @@ public final class CarHouse {
 
         private void passTransfer() {
             transfer.tick(time);
-            while (transfer.handed < transfer.frames) {
-                int f = transfer.handed;
-                transfer.handed++;
-                transfer.writeOctets(f);
-                boolean fromTester = !transfer.isToTester(f);
-                int controller = transfer.controllerOf(f);
-                int identifier = Transfer.IDENTIFIER + 2 * controller + (fromTester ? 0 : 1);
-                if (!bus.send(fromTester ? controllers : controller, identifier, transfer.written)) {
-                    counts[LOST]++;
-                    transfer.lose(f);
-                }
+            for (int f = transfer.handed; f < transfer.frames; f++) {
+                putOnBus(f);
             }
+            transfer.handed = transfer.frames;
             if (transfer.ended && asked >= 0) {
                 asked = -1;
                 counts[BROKEN]++;
             }
             transfer.ended = false;
+        }
+
+        private void putOnBus(int f) {
+            boolean fromTester = !transfer.isToTester(f);
+            int controller = transfer.controllerOf(f);
+            int identifier = Transfer.IDENTIFIER + 2 * controller + (fromTester ? 0 : 1);
+            transfer.writeOctets(f);
+            if (!bus.send(fromTester ? controllers : controller, identifier, transfer.written)) {
+                counts[LOST]++;
+                transfer.lose(f);
+            }
         }
     }
 
@@ -1283,7 +1286,8 @@ public final class CarHouse {
             return signal[FRAME][s] == f;
         }
 
-        boolean isDue(int f, int t) {
+        /** Whether a frame's turn is now; a silent controller misses it, so the next one is a period later in any case. */
+        boolean takeTurn(int f, int t) {
             if (frame[NEXT][f] != t) {
                 return false;
             }
