@@ -4,7 +4,7 @@ import java.nio.file.Path;
 import java.util.List;
 
 /**
- * Runs of calls with the answers of a second program, written from the document alone.
+ * Runs of calls with the answers of a second program that the same author wrote from the document: against slips, not misreadings.
  * Lines of src/test/runs/runs.txt: "new" begins a run, "| .." is a line told behind the text, others are a call = its answer.
  */
 public final class RunsTest {
