@@ -2753,9 +2753,13 @@ public final class CarHouse {
             frame[GONE][f] = 1;
         }
 
-        /** The first frame on its way to one side reaches it: the message that is whole by it, or 0. */
+        /**
+         * The first frame on its way to one side reaches it: the message that is whole by it, or 0.
+         * A frame is on its way from its handing to the bus on, not from its making on: what is made
+         * while frames are taken is handed over at the end of that microsecond.
+         */
         int reach(int controller, boolean toTester) {
-            for (int f = 0; f < frames; f++) {
+            for (int f = 0; f < handed; f++) {
                 if (frame[GONE][f] == 0 && controllerOf(f) == controller && isToTester(f) == toTester) {
                     frame[GONE][f] = 1;
                     return receive(f);
