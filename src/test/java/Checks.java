@@ -1,41 +1,52 @@
 import java.util.ArrayList;
 import java.util.List;
 import java.util.function.LongSupplier;
+import java.util.function.Supplier;
+import java.util.function.ToLongFunction;
 
 /** What the tests of the project share: answers that are due, texts told to a house, frames read off the bus. */
 final class Checks {
     private static int wrong;
     private static int looked;
+    private static String prefix = "";
 
     private Checks() {
     }
 
+    /** What is looked at from here on belongs to a promise of the document. */
+    static void promise(int number) {
+        prefix = "promise " + number + ": ";
+    }
+
     static void due(String what, long want, LongSupplier call) {
-        String got;
-        try {
-            got = Long.toString(call.getAsLong());
-        } catch (RuntimeException e) {
-            got = e.getClass().getSimpleName();
-        }
-        same(what, Long.toString(want), got);
+        same(what, Long.toString(want), answerTo(call));
     }
 
     /** The very exception: what the machine throws by itself is of classes below these. */
     static void thrown(String what, Class<? extends RuntimeException> want, LongSupplier call) {
-        String got;
+        same(what, want.getSimpleName(), answerTo(call));
+    }
+
+    static String answerTo(LongSupplier call) {
         try {
-            got = Long.toString(call.getAsLong());
+            return Long.toString(call.getAsLong());
         } catch (RuntimeException e) {
-            got = e.getClass().getSimpleName();
+            return e.getClass().getSimpleName();
         }
-        same(what, want.getSimpleName(), got);
+    }
+
+    /** A refused call changes nothing: a house that it was called on and a twin on which it was not have the same story from then on. */
+    static void refused(String what, Class<? extends RuntimeException> want, Supplier<CarHouse> make, ToLongFunction<CarHouse> call) {
+        CarHouse x = make.get();
+        thrown(what, want, () -> call.applyAsLong(x));
+        same(what + " changes nothing", Story.of(make.get()), Story.of(x));
     }
 
     static void same(String what, String want, String got) {
         looked++;
         if (!want.equals(got)) {
             wrong++;
-            System.out.println(what + ": answered " + got + ", due is " + want);
+            System.out.println(prefix + what + ": answered " + got + ", due is " + want);
         }
     }
 

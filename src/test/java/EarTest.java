@@ -1,141 +1,11 @@
-import java.util.ArrayList;
-import java.util.List;
-
 /**
  * Promises 12 to 14 and 19: frames of every kind, shown to one node by flips, since a car sends but one kind.
  * The bus is still but for that node's acknowledging, which makes the others flag from six bits behind it on.
  */
 public final class EarTest {
-    private static final int START = 100;
-    private static final int[] FLEXIBLE = {0, 1, 2, 3, 4, 5, 6, 7, 8, 12, 16, 20, 24, 32, 48, 64};
     private static final String[] CAR = {
         "controller a", "controller b", "task t a 1 20000 0 1", "task u b 1 20000 0 1", "chart c t 1", "chart e u 1", "datum c d 5", "datum e f 1",
         "signal g 24 c d 5000", "signal k 8 c d 6000", "protect a 6000 3", "read g e f 4", "watch g b 9"};
-
-    /** What is to be shown: plain bits up to the octets' end, and what of the rest is to be wrong. */
-    private static final class Shown {
-        private final int kind;
-        private final int code;
-        private final List<Integer> plain = new ArrayList<>();
-        private int wrongCheck;
-        private int wrongCount = -1;
-        private int wrongFixed = -1;
-        /** The bits on the wire, without acknowledge and what is behind it. */
-        private final List<Integer> wire = new ArrayList<>();
-        /** Where the last bit of COUNT, the wrong fixed bit, and each plain bit stand on the wire. */
-        private int countEnd;
-        private int fixedAt;
-        private final List<Integer> at = new ArrayList<>();
-
-        Shown(int kind, int identifier, int code, int... octets) {
-            this.kind = kind;
-            this.code = code;
-            boolean extended = kind % 2 == 1;
-            add(0, 1);
-            add(extended ? identifier >> 18 : identifier, 11);
-            if (extended) {
-                add(3, 2);
-                add(identifier & 0x3ffff, 18);
-                add(kind == 5 ? 1 : 0, 1);
-                add(kind == 3 ? 8 : 0, kind == 3 ? 4 : 2);
-            } else {
-                add(kind == 4 ? 2 : 0, 2);
-                add(kind == 2 ? 8 : 0, kind == 2 ? 4 : 1);
-            }
-            add(code, 4);
-            for (int i = 0; i < count(); i++) {
-                add(i < octets.length ? octets[i] : 37 * i + 255 & 255, 8);
-            }
-        }
-
-        int count() {
-            return kind >= 4 ? 0 : kind < 2 ? Math.min(code, 8) : FLEXIBLE[code];
-        }
-
-        private void add(int v, int bits) {
-            for (int i = bits - 1; i >= 0; i--) {
-                plain.add(v >> i & 1);
-            }
-        }
-
-        Shown with(int i, int bit) {
-            plain.set(i, bit);
-            return this;
-        }
-
-        private static int check(List<Integer> bits, int width, int by) {
-            int register = width == 15 ? 0 : 1 << width - 1;
-            for (int bit : bits) {
-                boolean differs = (register >> width - 1 & 1) != bit;
-                register = register << 1 & (1 << width) - 1;
-                register ^= differs ? by : 0;
-            }
-            return register;
-        }
-
-        private int stuff(List<Integer> bits, boolean behindLast) {
-            int same = 0;
-            int last = -1;
-            int stuffed = 0;
-            for (int i = 0; i < bits.size(); i++) {
-                at.add(wire.size());
-                wire.add(bits.get(i));
-                same = bits.get(i) == last ? same + 1 : 1;
-                last = bits.get(i);
-                if (same == 5 && (behindLast || i + 1 < bits.size())) {
-                    last = 1 - last;
-                    same = 1;
-                    wire.add(last);
-                    stuffed++;
-                }
-            }
-            return stuffed;
-        }
-
-        List<Integer> lay() {
-            if (kind == 2 || kind == 3) {
-                layFlexible();
-            } else {
-                int check = check(plain, 15, 17817) ^ wrongCheck;
-                List<Integer> all = new ArrayList<>(plain);
-                for (int i = 14; i >= 0; i--) {
-                    all.add(check >> i & 1);
-                }
-                stuff(all, true);
-            }
-            wire.add(1);
-            return wire;
-        }
-
-        private void layFlexible() {
-            int stuffed = stuff(plain, false) % 8;
-            int three = stuffed ^ stuffed / 2;
-            int four = three << 1 | Integer.bitCount(three) % 2;
-            List<Integer> checked = new ArrayList<>(wire);
-            List<Integer> behind = new ArrayList<>();
-            for (int i = 3; i >= 0; i--) {
-                behind.add(four >> i & 1);
-                checked.add(four >> i & 1);
-            }
-            int width = count() <= 16 ? 17 : 21;
-            int check = check(checked, width, width == 17 ? 92251 : 1058969) ^ wrongCheck;
-            for (int i = width - 1; i >= 0; i--) {
-                behind.add(check >> i & 1);
-            }
-            if (wrongCount >= 0) {
-                behind.set(wrongCount, 1 - behind.get(wrongCount));
-            }
-            for (int i = 0; i < behind.size(); i++) {
-                if (i % 4 == 0) {
-                    boolean wrong = wrongFixed == i / 4;
-                    fixedAt = wrong ? wire.size() : fixedAt;
-                    wire.add(wrong ? wire.get(wire.size() - 1) : 1 - wire.get(wire.size() - 1));
-                }
-                countEnd = i == 3 ? wire.size() : countEnd;
-                wire.add(behind.get(i));
-            }
-        }
-    }
 
     public static void main(String[] args) {
         allKinds();
@@ -148,28 +18,13 @@ public final class EarTest {
         Checks.end("EarTest");
     }
 
-    /** The acknowledge's time; up to it a flip makes each 0, behind it flips hide the flags of the others. */
-    private static int show(CarHouse x, int node, Shown shown) {
-        List<Integer> wire = shown.lay();
-        int start = Math.max(START, x.time());
-        for (int i = 0; i < wire.size(); i++) {
-            if (wire.get(i) == 0) {
-                x.flip(node, start + i);
-            }
-        }
-        int acknowledge = start + wire.size();
-        x.flip(node, acknowledge + 7);
-        x.flip(node, acknowledge + 8);
-        return acknowledge;
-    }
-
     private static void allKinds() {
         for (int kind = 0; kind < 6; kind++) {
             for (int code = 0; code < 16; code++) {
                 CarHouse x = Checks.carOf("controller a");
                 String what = "kind " + kind + " with code " + code;
                 int identifier = kind % 2 == 0 ? 1234 : 0x15aa5555;
-                int acknowledge = show(x, 1, new Shown(kind, identifier, code));
+                int acknowledge = new Shown(kind, identifier, code).show(x, 1);
                 x.run(acknowledge + 7);
                 Checks.due(what + " is acknowledged", 0, () -> x.bit(acknowledge));
                 Checks.due(what + " is not taken before its sixth end", 0, () -> x.node(1, 2));
@@ -197,7 +52,7 @@ public final class EarTest {
                     Shown shown = new Shown(kind, 77, code);
                     shown.wrongCheck = 1 << bit;
                     CarHouse x = Checks.carOf("controller a");
-                    int acknowledge = show(x, 1, shown);
+                    int acknowledge = shown.show(x, 1);
                     // Nobody acknowledges it, and it is told at the bit behind that.
                     error("a wrong check of kind " + kind, x, 3, acknowledge + 1);
                     Checks.due("not acknowledged", 1, () -> x.bit(acknowledge));
@@ -211,8 +66,8 @@ public final class EarTest {
             int reserved = kind == 2 ? 15 : 34;
             CarHouse form = Checks.carOf("controller a");
             Shown wrong = new Shown(kind, 77, 5).with(reserved, 1);
-            show(form, 1, wrong);
-            error("1 at bit " + reserved, form, 2, START + wrong.at.get(reserved));
+            wrong.show(form, 1);
+            error("1 at bit " + reserved, form, 2, Shown.START + wrong.at.get(reserved));
             int[] free = kind == 2 ? new int[] {12, 16, 17} : new int[] {12, 32, 35, 36};
             for (int i : free) {
                 accepted("bit " + i + " of kind " + kind, new Shown(kind, 77, 5).with(i, i == 12 && kind == 3 ? 0 : 1));
@@ -221,15 +76,15 @@ public final class EarTest {
                 Shown count = new Shown(kind, 77, 13);
                 count.wrongCount = i;
                 CarHouse x = Checks.carOf("controller a");
-                show(x, 1, count);
-                error("a wrong count", x, 1, START + count.countEnd);
+                count.show(x, 1);
+                error("a wrong count", x, 1, Shown.START + count.countEnd);
             }
             for (int i = 0; i < 6; i++) {
                 Shown like = new Shown(kind, 77, 7);
                 like.wrongFixed = i;
                 CarHouse x = Checks.carOf("controller a");
-                show(x, 1, like);
-                error("a fixed bit like the one before", x, 1, START + like.fixedAt);
+                like.show(x, 1);
+                error("a fixed bit like the one before", x, 1, Shown.START + like.fixedAt);
             }
         }
         accepted("bit 12 of kind 1", new Shown(1, 77, 5).with(12, 0));
@@ -239,7 +94,7 @@ public final class EarTest {
 
     private static void accepted(String what, Shown shown) {
         CarHouse x = Checks.carOf("controller a");
-        int acknowledge = show(x, 1, shown);
+        int acknowledge = shown.show(x, 1);
         x.run(acknowledge + 8);
         Checks.due(what + " is as it comes", 1, () -> x.node(1, 2));
     }
@@ -248,7 +103,7 @@ public final class EarTest {
     private static void taken() {
         for (int code = 8; code < 16; code++) {
             CarHouse x = Checks.carOf(CAR);
-            int acknowledge = show(x, 1, new Shown(0, 64, code, 1, 2, 3));
+            int acknowledge = new Shown(0, 64, code, 1, 2, 3).show(x, 1);
             x.run(acknowledge + 7);
             Checks.due("not yet", 1, () -> x.value(1, 0));
             x.run(1);
@@ -260,7 +115,7 @@ public final class EarTest {
 
     private static void nothing(String what, int node, Shown shown) {
         CarHouse x = Checks.carOf(CAR);
-        x.run(show(x, node, shown) + 8);
+        x.run(shown.show(x, node) + 8);
         Checks.due(what + " is taken", 1, () -> x.node(node, 2));
         Checks.due(what + " is not read", 1, () -> x.value(1, 0));
         Checks.due(what + " is not refused", 0, () -> x.counted(1));
@@ -285,7 +140,7 @@ public final class EarTest {
     private static void protectedOnes() {
         for (int counter : new int[] {0, 1, 64, 65, 255}) {
             CarHouse x = Checks.carOf(CAR);
-            x.run(show(x, 1, new Shown(0, 72, 8, 1, 2, 3, counter, 5, 6, 7, 8)) + 8);
+            x.run(new Shown(0, 72, 8, 1, 2, 3, counter, 5, 6, 7, 8).show(x, 1) + 8);
             Checks.due("taken", 1, () -> x.node(1, 2));
             Checks.due("refused, since its code is wrong", 1, () -> x.counted(1));
         }

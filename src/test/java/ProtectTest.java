@@ -1,6 +1,3 @@
-import javax.crypto.Cipher;
-import javax.crypto.spec.SecretKeySpec;
-
 /** Frames with keys, of promises 7, 9 and 23: what they have on the bus, and which of them are refused. */
 public final class ProtectTest {
     private static final String[] CAR = {
@@ -8,54 +5,22 @@ public final class ProtectTest {
         "state x s top plain", "edge x s s time", "take x n 1 more", "after x s 500", "chart y u 1", "datum y d 0", "datum y e 0",
         "signal g 24 x n 500 turned", "signal f 8 x n 600", "protect a 500 9", "read g y d 0", "watch g b 7", "watch g c 7"};
 
-    public static void main(String[] args) throws Exception {
+    public static void main(String[] args) {
         octets();
         sentAgain();
         silentForAWhile();
         Checks.end("ProtectTest");
     }
 
-    private static byte[] code(int key, byte[] row) throws Exception {
-        byte[] octets = new byte[16];
-        for (int i = 0; i < 16; i++) {
-            octets[i] = (byte) (key + i);
-        }
-        Cipher aes = Cipher.getInstance("AES/ECB/NoPadding");
-        aes.init(Cipher.ENCRYPT_MODE, new SecretKeySpec(octets, "AES"));
-        byte[] block = aes.doFinal(new byte[16]);
-        for (int n = 0; n < 2; n++) {
-            int went = block[0] & 128;
-            for (int i = 0; i < 16; i++) {
-                block[i] = (byte) (block[i] << 1 | (i < 15 ? (block[i + 1] & 255) >> 7 : 0));
-            }
-            block[15] ^= went != 0 ? 135 : 0;
-        }
-        for (int i = 0; i < row.length; i++) {
-            block[i] ^= row[i];
-        }
-        block[row.length] ^= 128;
-        return aes.doFinal(block);
-    }
-
-    private static String protectedFrame(int identifier, int key, int sent, int value) throws Exception {
-        byte[] row = new byte[12];
-        row[0] = (byte) ((identifier - 64) / 8);
-        row[7] = (byte) (sent >> 8);
-        row[8] = (byte) sent;
+    private static String protectedFrame(int identifier, int key, int sent, int value) {
         StringBuilder told = new StringBuilder().append(identifier).append(" |");
-        for (int i = 0; i < 3; i++) {
-            row[9 + i] = (byte) (value >> 16 - 8 * i);
-            told.append(' ').append(row[9 + i] & 255);
-        }
-        told.append(' ').append(sent & 255);
-        byte[] code = code(key, row);
-        for (int i = 0; i < 4; i++) {
-            told.append(' ').append(code[i] & 255);
+        for (int octet : Cmac.frame((identifier - 64) / 8, key, sent, value >> 16 & 255, value >> 8 & 255, value & 255)) {
+            told.append(' ').append(octet);
         }
         return told.append(" | right").toString();
     }
 
-    private static void octets() throws Exception {
+    private static void octets() {
         CarHouse x = Checks.carOf(CAR);
         x.run(1700);
         // The chart starts at 2 with 66051, which is 1 2 3, and adds one at 502 and 1002, both of which its task does then.

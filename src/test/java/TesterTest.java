@@ -1,13 +1,10 @@
-import javax.crypto.Cipher;
-import javax.crypto.spec.SecretKeySpec;
-
 /** Promises 23 to 28: counted, say, ask, asking, answer, answers; what controllers answer, and messages of many frames. */
 public final class TesterTest {
     private static final String[] CAR = {
         "controller a", "controller b", "task t a 1 20000 0 1", "task u b 1 20000 0 1", "chart c t 1", "chart e u 1", "datum c d -2", "datum e f 258",
         "signal s 8 c d 500"};
 
-    public static void main(String[] args) throws Exception {
+    public static void main(String[] args) {
         saying();
         oneQuestion();
         sessions();
@@ -108,44 +105,14 @@ public final class TesterTest {
         answers("34 255 0 of b", x, 1, "127 34 49", 34, 255, 0);
     }
 
-    private static byte[] cipher(byte[] block) throws Exception {
-        byte[] key = new byte[16];
-        for (int i = 0; i < 16; i++) {
-            key[i] = (byte) (16 + i);
-        }
-        Cipher aes = Cipher.getInstance("AES/ECB/NoPadding");
-        aes.init(Cipher.ENCRYPT_MODE, new SecretKeySpec(key, "AES"));
-        return aes.doFinal(block);
-    }
-
-    private static byte[] doubled(byte[] block) {
-        byte[] out = new byte[16];
-        for (int i = 0; i < 16; i++) {
-            out[i] = (byte) (block[i] << 1 | (i < 15 ? (block[i + 1] & 255) >> 7 : 0));
-        }
-        out[15] ^= block[0] < 0 ? 135 : 0;
-        return out;
-    }
-
-    /** The question 39 2 with the right key for the seed that was answered last. */
-    private static int[] keyFor(CarHouse x) throws Exception {
-        byte[] block = doubled(doubled(cipher(new byte[16])));
-        for (int i = 0; i < 4; i++) {
-            block[i] ^= x.answer(2 + i);
-        }
-        block[4] ^= 128;
-        byte[] code = cipher(block);
-        return new int[] {39, 2, code[0] & 255, code[1] & 255, code[2] & 255, code[3] & 255};
-    }
-
-    private static void writing() throws Exception {
+    private static void writing() {
         CarHouse x = car();
         int[] write = {46, 1, 31, 128, 0, 0, 0, 0, 0, 0, 7};
         answers("46 while rights are shut", x, 0, "127 46 51", write);
         answers("also for what is not there", x, 0, "127 46 51", 46, 9, 99, 0, 0, 0, 0, 0, 0, 0, 0);
         answers("16 2", x, 0, "80 2", 16, 2);
         answers("39 1", x, 0, "103 1 158 55 121 177", 39, 1);
-        answers("39 2", x, 0, "103 2", keyFor(x));
+        answers("39 2", x, 0, "103 2", Cmac.keyFor(x));
         answers("46", x, 0, "110 1 31", write);
         Checks.due("the datum became that", Long.MIN_VALUE + 7, () -> x.value(0, 31));
         answers("46 of a datum above 31", x, 0, "127 46 49", 46, 1, 32, 0, 0, 0, 0, 0, 0, 0, 0);
@@ -157,12 +124,12 @@ public final class TesterTest {
         answers("shuts them", x, 0, "127 46 51", write);
     }
 
-    private static void wrongKeys() throws Exception {
+    private static void wrongKeys() {
         CarHouse x = car();
         answers("16 2", x, 0, "80 2", 16, 2);
         answers("no seed is open", x, 0, "127 39 36", 39, 2, 0, 0, 0, 0);
         answers("39 1", x, 0, "103 1 158 55 121 177", 39, 1);
-        answers("right", x, 0, "103 2", keyFor(x));
+        answers("right", x, 0, "103 2", Cmac.keyFor(x));
         answers("another seed", x, 0, "103 1 60 110 243 98", 39, 1);
         answers("wrong for the first time", x, 0, "127 39 53", 39, 2, 0, 0, 0, 0);
         answers("it shuts the rights", x, 0, "127 46 51", 46, 1, 0, 0, 0, 0, 0, 0, 0, 0, 0);
@@ -182,14 +149,14 @@ public final class TesterTest {
     }
 
     /** 2654435761 n modulo 2^32, and one that was open is no more. */
-    private static void seeds() throws Exception {
+    private static void seeds() {
         CarHouse x = car();
         answers("16 2 of a", x, 0, "80 2", 16, 2);
         answers("16 2 of b", x, 1, "80 2", 16, 2);
         answers("the first seed", x, 0, "103 1 158 55 121 177", 39, 1);
-        int[] old = keyFor(x);
+        int[] old = Cmac.keyFor(x);
         answers("the second one, of b", x, 1, "103 1 60 110 243 98", 39, 1);
-        int[] ofB = keyFor(x);
+        int[] ofB = Cmac.keyFor(x);
         answers("the third one, of a", x, 0, "103 1 218 166 109 19", 39, 1);
         answers("the first one is no more", x, 0, "127 39 53", old);
         answers("b's is open", x, 1, "103 2", ofB);

@@ -1,0 +1,164 @@
+/** Promise 19, value, to its edges: the first and the last datum, the least and the greatest numbers, sums that wrap around. */
+public final class Promise19Test {
+    public static void main(String[] args) {
+        Checks.promise(19);
+        bounds();
+        thirtyTwo();
+        sums();
+        wrapping();
+        atOnce();
+        ticks();
+        refusals();
+        Checks.end("Promise19Test");
+    }
+
+    private static CarHouse chart(String... lines) {
+        return Checks.carOf("controller a", "task t a 1 1000 0 1", "chart x t 50", String.join("\n", lines));
+    }
+
+    private static void holds(String what, CarHouse x, int datum, long want) {
+        Checks.due(what + ": value(0, " + datum + ") at " + x.time(), want, () -> x.value(0, datum));
+    }
+
+    private static void bounds() {
+        CarHouse x = chart("datum x a -999999999", "datum x b 999999999", "datum x c -0", "datum x d -1");
+        holds("the least number of a text", x, 0, -999999999);
+        holds("the greatest one", x, 1, 999999999);
+        holds("0 with a sign", x, 2, 0);
+        holds("below 0", x, 3, -1);
+        for (int datum = 4; datum < 32; datum++) {
+            holds("not told", x, datum, 0);
+        }
+        CarHouse none = chart();
+        holds("none told", none, 0, 0);
+        holds("none told", none, 31, 0);
+    }
+
+    private static void thirtyTwo() {
+        StringBuilder lines = new StringBuilder();
+        for (int i = 0; i < 32; i++) {
+            lines.append("datum x d").append(i).append(' ').append(100 + i).append('\n');
+        }
+        CarHouse x = chart(lines.toString(), "state x s top plain", "enter x s d31 5 more", "enter x s d0 7");
+        for (int i = 0; i < 32; i++) {
+            holds("of thirty-two", x, i, 100 + i);
+        }
+        x.run(2);
+        holds("an act on the last one", x, 31, 136);
+        holds("an act on the first one", x, 0, 7);
+        holds("none on the others", x, 30, 130);
+        x.system();
+        holds("another car begins anew", x, 31, 131);
+        // A second car with fewer data has zeros where the first one had others.
+        x.cut(0);
+        Checks.tell(x, "controller a\ntask t a 1 1000 0 1\nchart x t 50\ndatum x d 4");
+        x.system();
+        holds("told", x, 0, 4);
+        holds("not told", x, 31, 0);
+    }
+
+    private static void sums() {
+        CarHouse x = chart("datum x n 999999999", "datum x m -999999999", "datum x o 1", "state x s top plain", "enter x s n 999999999 more",
+            "enter x s m -999999999 more", "enter x s o 0", "enter x s o -999999999 more", "enter x s o 999999999 more");
+        x.run(2);
+        holds("beyond a text's numbers", x, 0, 1999999998L);
+        holds("below them", x, 1, -1999999998L);
+        holds("made 0, then less, then more", x, 2, 0);
+        CarHouse big = chart("datum x n 0", "datum x m 31", "datum x k 0", "state x s top plain", "edge x s s 0 if k lt m", "take x k 1 more",
+            "take x n 999999999 more");
+        big.run(2);
+        holds("beyond 32 bits", big, 0, 31 * 999999999L);
+    }
+
+    /** 64 bits, wrapping: the greatest number and 1 is the least one, and the other way. */
+    private static void wrapping() {
+        // Each time of s leads to s again; once 7 is written to k, the first edge does so.
+        String[] lines = {"datum x n 0", "datum x m 0", "datum x k 0", "state x s top plain", "edge x s s time if k eq 7", "take x n 1 more", "take x m -1 more",
+            "take x k 0", "edge x s s time", "after x s 900"};
+        CarHouse x = chart(lines);
+        Tester.openRights(x, 0);
+        Checks.same("write", "110 1 0", Tester.write(x, 0, 900, 1, 0, Long.MAX_VALUE));
+        holds("the greatest number", x, 0, Long.MAX_VALUE);
+        Checks.same("write", "110 1 1", Tester.write(x, 0, 900, 1, 1, Long.MIN_VALUE));
+        holds("the least number", x, 1, Long.MIN_VALUE);
+        Checks.same("write", "110 1 2", Tester.write(x, 0, 900, 1, 2, 7));
+        x.run(3000);
+        holds("one more than the greatest", x, 0, Long.MIN_VALUE);
+        holds("one less than the least", x, 1, Long.MAX_VALUE);
+        holds("once", x, 2, 0);
+    }
+
+    /** What is read becomes the datum when the frame is taken, also before the chart has started; so does what is written. */
+    private static void atOnce() {
+        CarHouse x = Checks.carOf("controller a", "controller b", "task t a 1 20000 0 1", "task u b 1 20000 19990 1", "chart c t 1", "chart e u 1", "datum c d 77",
+            "datum e f 5", "state e s top plain", "signal s 8 c d 500", "read s e f 3");
+        x.run(501);
+        while (x.node(1, 2) == 0) {
+            Checks.due("not before it is taken", 5, () -> x.value(1, 0));
+            x.run(1);
+        }
+        Checks.due("with the very microsecond in which it is", 77, () -> x.value(1, 0));
+        Checks.due("the chart has not started", -3, () -> x.active(1, 0));
+        Tester.openRights(x, 1);
+        Checks.same("a datum that was not told", "110 2 31", Tester.write(x, 1, 900, 2, 31, -2));
+        Checks.due("is written, too", -2, () -> x.value(1, 31));
+        Checks.due("the chart has not started", -3, () -> x.active(1, 0));
+        x.run(19992 - x.time());
+        Checks.due("started", 1, () -> x.active(1, 0));
+        Checks.due("what was written stays", -2, () -> x.value(1, 31));
+    }
+
+    /** A time speaks when the state was entered so long ago, or longer, when the task is done; not one tick before. */
+    private static void ticks() {
+        for (int ticks : new int[] {1, 999, 1000, 1001, 1999, 2000, 2001}) {
+            CarHouse x = chart("datum x n 0", "state x s top plain", "state x z top plain", "edge x s z time", "take x n 1 more", "after x s " + ticks);
+            x.run(2);
+            holds("at the start", x, 0, 0);
+            x.run(999);
+            holds("the task is not done", x, 0, 0);
+            x.run(1);
+            holds("1000 behind the entry, of " + ticks, x, 0, ticks <= 1000 ? 1 : 0);
+            x.run(1000);
+            holds("2000 behind the entry, of " + ticks, x, 0, ticks <= 2000 ? 1 : 0);
+        }
+        CarHouse longest = chart("datum x n 0", "state x s top plain", "edge x s s time", "take x n 1 more", "after x s 20000");
+        longest.run(20000);
+        holds("the longest never comes", longest, 0, 0);
+        CarHouse late = Checks.carOf("controller a", "task t a 1 19500 490 1", "chart x t 1", "datum x n 0", "state x s top plain", "edge x s s time",
+            "take x n 1 more", "after x s 19500");
+        late.run(19991);
+        holds("19499", late, 0, 0);
+        late.run(1);
+        holds("19500", late, 0, 1);
+        // It speaks once for each entry, and the time of what it leads to counts from when it was due.
+        CarHouse chain = chart("datum x n 0", "state x s top plain", "state x z top plain", "edge x s z time", "take x n 1 more", "after x s 400",
+            "edge x z s time", "take x n 10 more", "after x z 600");
+        chain.run(1002);
+        holds("402 and 1002", chain, 0, 11);
+        chain.run(1000);
+        holds("1402 and 2002", chain, 0, 22);
+        CarHouse once = chart("datum x n 0", "state x o top plain", "state x p o plain", "state x q o plain", "edge x o o time if n eq 31", "edge x p q time",
+            "take x n 1 more", "after x o 10", "after x p 5");
+        once.run(3002);
+        holds("a time without an edge that is taken is spoken, too", once, 0, 1);
+        Checks.due("and asked once", 1, () -> once.chart(0, 6));
+    }
+
+    private static CarHouse halfway() {
+        CarHouse x = chart("datum x n 0", "state x s top plain", "edge x s s time", "take x n 1 more", "after x s 300");
+        x.run(700);
+        return x;
+    }
+
+    private static void refusals() {
+        int[][] none = {{-1, 0}, {1, 0}, {0, -1}, {0, 32}, {Integer.MIN_VALUE, 0}, {Integer.MAX_VALUE, 0}, {0, Integer.MIN_VALUE}, {0, Integer.MAX_VALUE}};
+        for (int[] at : none) {
+            Checks.refused("value(" + at[0] + ", " + at[1] + ")", IndexOutOfBoundsException.class, Promise19Test::halfway, x -> x.value(at[0], at[1]));
+        }
+        Checks.thrown("value(0, 0) without a car", IndexOutOfBoundsException.class, () -> new CarHouse().value(0, 0));
+        Checks.thrown("value(0, 0) without charts", IndexOutOfBoundsException.class, () -> Checks.carOf("controller a").value(0, 0));
+        CarHouse twelve = Checks.carOf("controller a\n" + Faults.many(12, "task t% a 9 20000 0 1") + Faults.many(12, "chart x% t% 1") + "datum xb d 6");
+        Checks.due("the twelfth chart", 6, () -> twelve.value(11, 0));
+        Checks.thrown("no thirteenth", IndexOutOfBoundsException.class, () -> twelve.value(12, 0));
+    }
+}

@@ -1,0 +1,269 @@
+/** Promise 23, counted, to its edges: the 200th frame and the next one, the 16th event and the next one, a wait of 1000 and one less. */
+public final class Promise23Test {
+    private static final int LOST = 0, REFUSED = 1, EVENTS = 2, ANSWERS = 3, ENDED = 4;
+    private static final String HEAD = "controller a\ncontroller b\ntask t a 1 20000 0 1\ntask u b 1 20000 0 1\nchart c t 1\nchart e u 1\ndatum c d -1\n"
+        + "datum e f 1\n";
+
+    public static void main(String[] args) {
+        Checks.promise(23);
+        noneYet();
+        twoHundredFrames();
+        lostInOrder();
+        lostMessages();
+        refusedFrames();
+        lostEvents();
+        answers();
+        senderWaits();
+        receiverWaits();
+        onceForAQuestion();
+        refusals();
+        Checks.end("Promise23Test");
+    }
+
+    private static void counts(String what, CarHouse x, int which, int want) {
+        Checks.due(what + ": counted(" + which + ") at " + x.time(), want, () -> x.counted(which));
+    }
+
+    private static void noneYet() {
+        CarHouse x = Checks.carOf(HEAD);
+        for (int what = 0; what < 5; what++) {
+            counts("a new car", x, what, 0);
+            counts("without a car", new CarHouse(), what, 0);
+        }
+    }
+
+    /** 39 frames of 500 and one of 700: 198 were made by 2500. */
+    private static CarHouse almostFull() {
+        CarHouse x = Checks.carOf(HEAD + Faults.many(39, "signal s% 64 c d 500") + "signal n 64 c d 700");
+        x.run(2501);
+        return x;
+    }
+
+    private static void twoHundredFrames() {
+        CarHouse x = almostFull();
+        counts("198 frames", x, LOST, 0);
+        x.run(300);
+        counts("199 frames", x, LOST, 0);
+        x.run(199);
+        counts("before 3000", x, LOST, 0);
+        x.run(1);
+        counts("the 200th has room, 38 have none", x, LOST, 38);
+        Checks.due("all were sent", 6 * 39 + 4, () -> {
+            int sent = 0;
+            for (int i = 0; i < 40; i++) {
+                sent += x.frame(i, 4);
+            }
+            return sent;
+        });
+        CarHouse asked = almostFull();
+        Checks.say(asked, 25);
+        asked.ask(0);
+        asked.run(1);
+        counts("a question is the 199th", asked, LOST, 0);
+        asked.run(299);
+        counts("the 200th has room", asked, LOST, 0);
+        asked.run(200);
+        counts("none of 39 has", asked, LOST, 39);
+        asked.run(500);
+        counts("nor later ones", asked, LOST, 2 * 39 + 1);
+        asked.system();
+        counts("another car", asked, LOST, 0);
+    }
+
+    /** Frames are sent in the order of their numbers: of 30 in each turn those of b are lost, from the sixth of its fifteen on. */
+    private static void lostInOrder() {
+        CarHouse x = Checks.carOf(HEAD.replace("datum e f 1", "datum e f 0") + Faults.many(15, "signal s% 64 c d 500") + Faults.many(15, "signal r% 64 e f 500"));
+        x.run(3001);
+        counts("180 frames", x, LOST, 0);
+        x.run(500);
+        counts("210 frames", x, LOST, 10);
+        x.run(16499);
+        Checks.due("all of a had room: those that b took, and that wait", 105, () -> x.node(1, 2) + x.node(0, 1));
+        Checks.due("ten of b's had none", 95, () -> x.node(0, 2) + x.node(1, 1));
+    }
+
+    private static void lostMessages() {
+        CarHouse x = almostFull();
+        x.run(500);
+        counts("all room is gone", x, LOST, 38);
+        Checks.say(x, 25);
+        x.ask(1);
+        counts("asking alone loses nothing", x, LOST, 38);
+        x.run(1);
+        counts("a single frame is lost", x, LOST, 39);
+        Checks.due("nothing waits at the tester", 0, () -> x.node(2, 1));
+        x.run(100);
+        counts("once", x, LOST, 39);
+        Checks.due("it stays asked", 1, x::asking);
+        CarHouse first = almostFull();
+        first.run(500);
+        Checks.say(first, 1, 2, 3, 4, 5, 6, 7, 8);
+        first.ask(1);
+        first.run(1);
+        counts("a first frame is lost", first, LOST, 39);
+        first.run(998);
+        counts("its sender waits", first, ENDED, 0);
+        first.run(1);
+        counts("and ends", first, ENDED, 1);
+    }
+
+    private static void refusedFrames() {
+        String[] car = {"controller a", "controller b", "controller k", "task t a 1 20000 0 1", "chart c t 1", "datum c d 5", "signal g 8 c d 500", "protect a 500 3"};
+        CarHouse twin = Checks.carOf(car);
+        twin.run(501);
+        while (twin.node(0, 1) == 1) {
+            twin.run(1);
+        }
+        CarHouse x = Checks.carOf(car);
+        x.flip(0, twin.time() - 1);
+        x.run(990);
+        // The sender saw a 0 at its last END, so it sent the frame again: both others had taken it.
+        counts("each controller for itself, but not the tester", x, REFUSED, 2);
+        x.run(500);
+        counts("the next one is taken", x, REFUSED, 2);
+        CarHouse none = Checks.carOf(car);
+        none.run(20000);
+        counts("none of 39 frames", none, REFUSED, 0);
+    }
+
+    private static void lostEvents() {
+        for (int reads : new int[] {16, 17, 60}) {
+            CarHouse x = Checks.carOf(HEAD + "signal s 8 c d 500\n" + Faults.many(reads, "read s e f 1"));
+            x.run(900);
+            counts(reads + " events", x, EVENTS, reads - 16);
+        }
+        CarHouse none = Checks.carOf(HEAD + "signal s 8 c d 500\n" + Faults.many(60, "read s e f 0"));
+        none.run(900);
+        counts("event 0 is none", none, EVENTS, 0);
+    }
+
+    private static void answers() {
+        CarHouse x = Checks.carOf(HEAD);
+        for (int i = 1; i <= 5; i++) {
+            Checks.say(x, 25);
+            x.ask(i % 2);
+            counts("asked", x, ANSWERS, i - 1);
+            x.run(400);
+            counts("answered", x, ANSWERS, i);
+        }
+        x.run(1000);
+        counts("each once", x, ANSWERS, 5);
+        counts("none ended", x, ENDED, 0);
+    }
+
+    /** The bus is full of frames that come before those of questions. */
+    private static CarHouse crowded() {
+        CarHouse x = Checks.carOf(HEAD + Faults.many(20, "signal s% 64 c d 500"));
+        x.run(600);
+        return x;
+    }
+
+    private static void senderWaits() {
+        for (int octets : new int[] {7, 8, 100}) {
+            CarHouse x = crowded();
+            for (int i = 0; i < octets; i++) {
+                Checks.say(x, 7);
+            }
+            x.ask(1);
+            x.run(999);
+            counts(octets + " octets, 999 ticks", x, ENDED, 0);
+            Checks.due("still asked", 1, x::asking);
+            x.run(1);
+            counts(octets + " octets, 1000 ticks", x, ENDED, octets > 7 ? 1 : 0);
+            Checks.due("asked or not", octets > 7 ? -1 : 1, x::asking);
+        }
+    }
+
+    /** The tester is kept from sending CONSECUTIVE frames, so that the controller waits for the next one: 1000 ticks since the last one. */
+    private static void receiverWaits() {
+        for (int heard = 1; heard <= 2; heard++) {
+            CarHouse x = Checks.carOf("controller a");
+            for (int i = 0; i < 20; i++) {
+                Checks.say(x, 255);
+            }
+            x.ask(0);
+            while (x.node(0, 2) < heard) {
+                x.run(1);
+            }
+            int reached = x.time();
+            while (x.node(1, 2) == 0) {
+                x.run(1);
+            }
+            for (int t = Math.max(x.time(), reached) + 20; t < reached + 1400; t += 12) {
+                x.flip(1, t);
+            }
+            // The TRANSFER's time was one less than the time when the frame reached the other side.
+            x.run(reached + 998 - x.time());
+            counts("999 ticks behind frame " + heard, x, ENDED, 0);
+            Checks.due("still asked", 0, x::asking);
+            Checks.due("nothing more was taken", heard, () -> x.node(0, 2));
+            x.run(1);
+            counts("1000 ticks behind frame " + heard, x, ENDED, 1);
+            Checks.due("not any more", -1, x::asking);
+            x.run(2000);
+            Checks.due("what comes later does nothing", 0, x::answers);
+            counts("no answer", x, ANSWERS, 0);
+        }
+    }
+
+    /** The sender of the first question ends 1000 ticks behind its FIRST, its receiver later: then another question may be asked. */
+    private static void onceForAQuestion() {
+        CarHouse x = Checks.carOf("controller a", "controller b");
+        Checks.say(x, 1, 2, 3, 4, 5, 6, 7, 8);
+        x.ask(0);
+        while (x.node(0, 2) == 0) {
+            x.run(1);
+        }
+        int reached = x.time();
+        // The tester is kept from taking the FLOW, and from sending, as it sees errors.
+        for (int t = reached + 10; t < reached + 1100; t += 11) {
+            x.flip(2, t);
+        }
+        x.run(999 - x.time());
+        counts("999 ticks", x, ENDED, 0);
+        x.run(1);
+        counts("the sender", x, ENDED, 1);
+        Checks.say(x, 25);
+        x.ask(1);
+        x.run(reached + 998 - x.time());
+        Checks.due("another question", 1, x::asking);
+        counts("999 ticks behind FIRST at its receiver", x, ENDED, 1);
+        x.run(1);
+        counts("a side of any message ends what is asked", x, ENDED, 2);
+        Checks.due("nothing is asked", -1, x::asking);
+        x.run(1500);
+        counts("once", x, ENDED, 2);
+        // A side that ends while nothing is asked counts for nothing.
+        CarHouse y = Checks.carOf("controller a", "controller b");
+        Checks.say(y, 1, 2, 3, 4, 5, 6, 7, 8);
+        y.ask(0);
+        while (y.node(0, 2) == 0) {
+            y.run(1);
+        }
+        for (int t = reached + 10; t < reached + 1100; t += 11) {
+            y.flip(2, t);
+        }
+        y.run(5000);
+        counts("the sender's end alone", y, ENDED, 1);
+    }
+
+    private static CarHouse halfway() {
+        CarHouse x = Checks.carOf(HEAD + "signal s 8 c d 500\n" + Faults.many(20, "read s e f 1"));
+        Checks.asked(x, 0, 900, 25);
+        return x;
+    }
+
+    private static void refusals() {
+        for (int what : new int[] {-1, 5, Integer.MIN_VALUE, Integer.MAX_VALUE}) {
+            Checks.refused("counted(" + what + ")", IllegalArgumentException.class, Promise23Test::halfway, x -> x.counted(what));
+            Checks.refused("counted(" + what + ") without a car", IllegalArgumentException.class, CarHouse::new, x -> x.counted(what));
+        }
+        CarHouse x = halfway();
+        counts("four events", x, EVENTS, 4);
+        Checks.tell(x, "x");
+        x.system();
+        for (int what = 0; what < 5; what++) {
+            counts("behind a fault", x, what, 0);
+        }
+    }
+}
