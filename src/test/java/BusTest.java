@@ -6,17 +6,27 @@ public final class BusTest {
     private static final int QUIET = 0, SENDING = 1, LISTENING = 2, FLAGGING = 3, WAITING = 4, CLEARING = 5, PAUSING = 6;
 
     public static void main(String[] args) {
+        Checks.promise(9);
         times();
+        Checks.promise(12);
         oneFrame();
+        Checks.promise(11);
         octets();
+        Checks.promise(12);
         arbitration();
+        Checks.promise(13);
         senderErrors();
         listenerErrors();
+        Checks.promise(14);
         flips();
+        Checks.promise(13);
         overload();
+        Checks.promise(12);
         thirdOfThePause();
         firstOfARow();
+        Checks.promise(15);
         silence();
+        Checks.promise(23);
         noRoom();
         Checks.end("BusTest");
     }

@@ -3,17 +3,27 @@ public final class ChartTest {
     private static final int DROPPED = 0, QUEUED = 1, STOPS = 2, ENTERED = 3, TAKEN = 4, HELD = 5, NOT_HELD = 6, BY_ZERO = 7;
 
     public static void main(String[] args) {
+        Checks.promise(18);
         start();
+        Checks.promise(20);
         chains();
+        Checks.promise(19);
         times();
+        Checks.promise(20);
         manyTimes();
+        Checks.promise(18);
         histories();
         forksAndJoins();
+        Checks.promise(19);
         conflicts();
+        Checks.promise(20);
         guards();
+        Checks.promise(19);
         acts();
+        Checks.promise(20);
         events();
         queue();
+        Checks.promise(18);
         wrongInputs();
         Checks.end("ChartTest");
     }

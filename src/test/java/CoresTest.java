@@ -3,11 +3,15 @@ public final class CoresTest {
     private static final int SUSPENDED = 0, READY = 1, RUNNING = 2;
 
     public static void main(String[] args) {
+        Checks.promise(16);
         higherRank();
         equalRanks();
+        Checks.promise(17);
         wanted();
         endAndActivation();
+        Checks.promise(16);
         ownCores();
+        Checks.promise(17);
         wrongInputs();
         Checks.end("CoresTest");
     }

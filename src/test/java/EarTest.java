@@ -8,6 +8,7 @@ public final class EarTest {
         "signal g 24 c d 5000", "signal k 8 c d 6000", "protect a 6000 3", "read g e f 4", "watch g b 9"};
 
     public static void main(String[] args) {
+        Checks.promise(12);
         allKinds();
         wrongChecks();
         fixedBits();

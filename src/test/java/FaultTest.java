@@ -1,6 +1,7 @@
 /** Promises 4 and 5: system and place; the lines of a text, and each fault at its place, which ^ marks. */
 public final class FaultTest {
     public static void main(String[] args) {
+        Checks.promise(4);
         unknownWords();
         words();
         twice();

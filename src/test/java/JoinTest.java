@@ -4,8 +4,11 @@ public final class JoinTest {
         "controller a", "controller b", "task t a 1 500 0 1", "task u b 1 500 0 1", "chart c t 1", "chart e u 1", "datum c d 0", "datum e d 0"};
 
     public static void main(String[] args) {
+        Checks.promise(6);
         counts();
+        Checks.promise(7);
         framesInOrder();
+        Checks.promise(8);
         bestWay();
         firstFit();
         threeOctets();

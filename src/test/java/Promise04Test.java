@@ -27,6 +27,9 @@ public final class Promise04Test {
         wholeText();
         sixteenTimes();
         insteadOfTheOneBefore();
+        openRights();
+        countersOfFrames();
+        unfinishedMessages();
         octetsStay();
         noCarBehindAFault();
         Checks.end("Promise04Test");
@@ -238,6 +241,10 @@ public final class Promise04Test {
         Faults.fault(3, BASE + "datum c ^d 1");
         Faults.good(BASE + "state e s top plain\nstate c d top plain\nstate c c top plain\nstate c a top plain\nstate c f top plain");
         Faults.good(BASE + "datum e d 1\ndatum c s 1\ndatum c c 1\ndatum c a 1\ndatum c f 1");
+        Faults.good(BASE + "state e d top plain\ndatum c q 1\nstate e q top plain\nstate c f top plain\nstate c r top plain\ndatum e r 1");
+        // So they have in each of twelve charts.
+        Faults.good("controller a\n" + Faults.many(12, "task t% a 9 20000 0 1") + Faults.many(12, "chart c% t% 1") + Faults.many(12, "datum c% n 0")
+            + Faults.many(12, "state c% n top plain") + Faults.many(12, "edge c% n n 1 if n eq n"));
         Faults.fault(3, BASE + "protect a 500 1\nprotect a ^500 1");
         Faults.fault(3, BASE + "protect a 000000500 1\nprotect a ^500 16");
         Faults.good(BASE + "protect a 500 1\nprotect b 500 1\nprotect a 501 1\nprotect a 20000 1");
@@ -476,6 +483,84 @@ public final class Promise04Test {
         Checks.same("session 2", "80 2", Checks.asked(x, 0, 900, 16, 2));
         Checks.same("the first seed", "103 1 158 55 121 177", Checks.asked(x, 0, 900, 39, 1));
         Checks.same("the first wrong key", "127 39 53", Checks.asked(x, 0, 900, 39, 2, 0, 0, 0, 0));
+    }
+
+    /** Rights, an open seed and three wrong keys are of the car before; they would show without a session being begun. */
+    private static void openRights() {
+        String[] car = {"controller a", "controller b", "task t a 1 20000 0 1", "chart c t 1", "datum c d 1"};
+        CarHouse x = Checks.carOf(car);
+        Tester.openRights(x, 0);
+        Checks.same("rights are open", "110 1 0", Tester.write(x, 0, 900, 1, 0, 5));
+        x.system();
+        Checks.same("rights are shut in another car", "127 46 51", Tester.write(x, 0, 900, 1, 0, 5));
+        Checks.due("nothing was written", 1, () -> x.value(0, 0));
+        CarHouse seeded = Checks.carOf(car);
+        Checks.asked(seeded, 1, 700, 16, 2);
+        Checks.asked(seeded, 1, 700, 39, 1);
+        int[] key = Cmac.keyFor(seeded);
+        seeded.system();
+        Checks.same("no seed is open in another car", "127 39 36", Checks.asked(seeded, 1, 700, key));
+        CarHouse wrong = Checks.carOf(car);
+        Checks.asked(wrong, 0, 700, 16, 2);
+        for (int i = 0; i < 3; i++) {
+            Checks.asked(wrong, 0, 700, 39, 1);
+            Checks.asked(wrong, 0, 700, 39, 2, 0, 0, 0, 0);
+        }
+        Checks.same("three wrong keys", "127 39 54", Checks.answerOf(wrong));
+        wrong.system();
+        Checks.same("none in another car", "127 39 36", Checks.asked(wrong, 0, 700, 39, 2, 0, 0, 0, 0));
+    }
+
+    /** Each controller begins anew with the counters of protected frames: the first one of another car is no frame of the past. */
+    private static void countersOfFrames() {
+        for (int sender = 0; sender < 3; sender++) {
+            CarHouse x = Checks.carOf("controller q0", "controller q1", "controller q2", "task t q" + sender + " 1 20000 0 1", "chart c t 1", "datum c d 5",
+                "signal s 8 c d 500", "protect q" + sender + " 500 7");
+            x.run(3000);
+            Checks.due("none was refused", 0, () -> x.counted(1));
+            x.system();
+            x.run(3000);
+            Checks.due("nor in another car", 0, () -> x.counted(1));
+        }
+    }
+
+    /** Sides that wait when another car is made: they do not end what is asked in that one. */
+    private static void unfinishedMessages() {
+        for (int message = 1; message <= 4; message++) {
+            CarHouse x = Checks.carOf("controller a", "task t a 1 20000 0 1", "chart c t 1", "datum c d -1", Faults.many(39, "signal s% 64 c d 1000"));
+            if (message > 2) {
+                Checks.asked(x, 0, 265, 25);
+                Checks.due("two messages", 1, () -> x.counted(3));
+            }
+            // An odd one is a question of two frames, an even one the answer of three to one of one frame.
+            Checks.say(x, message % 2 == 1 ? new int[] {1, 2, 3, 4, 5, 6, 7, 8} : new int[] {34, 1, 0});
+            x.ask(0);
+            int node = message % 2 == 1 ? 0 : 1;
+            int before = x.node(node, 2);
+            while (x.node(node, 2) == before) {
+                x.run(1);
+            }
+            int waits = message;
+            x.system();
+            x.run(1100);
+            Checks.say(x, 25);
+            x.ask(0);
+            x.run(3000);
+            Checks.due("message " + waits + " of the car before", 0, x::asking);
+            Checks.due("ends nothing in this one", 0, () -> x.counted(4));
+        }
+        CarHouse late = Checks.carOf("controller a");
+        late.run(7000);
+        late.system();
+        Checks.say(late, 1, 2, 3, 4, 5, 6, 7, 8);
+        late.ask(0);
+        for (int t = 10; t < 1100; t += 8) {
+            late.flip(0, t);
+        }
+        late.run(999);
+        Checks.due("a sender waits from the time of its own car on", 0, late::asking);
+        late.run(1);
+        Checks.due("for 1000 ticks", -1, late::asking);
     }
 
     private static void octetsStay() {

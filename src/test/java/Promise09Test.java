@@ -16,6 +16,7 @@ public final class Promise09Test {
         valuesOfBits();
         firstValue();
         counters();
+        sixteenKeys();
         nobodyElsesFrames();
         Checks.end("Promise09Test");
     }
@@ -172,6 +173,23 @@ public final class Promise09Test {
         shown("d = 65 behind one that was taken, then 64", new long[] {10, 75, 74}, "taken refused taken");
         // Octet 3 is 0, as of 256, but the code is of a counter that was not at hand.
         shown("the lowest eight bits alone are not enough", new long[] {64, 128, 192, 512, 256}, "taken taken taken refused taken");
+    }
+
+    /** Each key by its own octets: on the bus as the library's cipher has it, and taken by the others. */
+    private static void sixteenKeys() {
+        for (int key = 1; key <= 16; key++) {
+            CarHouse x = Checks.carOf(HEAD + "signal s 24 c d 500 turned\nsignal r 8 c m 600\nprotect a 500 " + key + "\nread s e f 0");
+            x.run(1400);
+            for (int sent = 1; sent <= 2; sent++) {
+                StringBuilder want = new StringBuilder("64 |");
+                for (int octet : Cmac.frame(0, key, sent, 0, 18, 52)) {
+                    want.append(' ').append(octet);
+                }
+                Checks.same("key " + key + ", sent for the time " + sent, want + " | right", Checks.frameAt(x, 500 * sent));
+            }
+            Checks.due("key " + key + " is taken", 4660, () -> x.value(1, 0));
+            Checks.due("key " + key + ": none is refused", 0, () -> x.counted(1));
+        }
     }
 
     /** Frames at a controller that has nothing to do with them, or that are protected by another key, position or octet. */

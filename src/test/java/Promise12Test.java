@@ -1,3 +1,5 @@
+import java.util.Arrays;
+
 /** Promise 12, node, to its edges: what a node is before each bit of a frame, a flag and a pause; how many frames wait, and were TAKEN. */
 public final class Promise12Test {
     private static final int QUIET = 0, SENDING = 1, LISTENING = 2, FLAGGING = 3, WAITING = 4, CLEARING = 5, PAUSING = 6;
@@ -15,7 +17,9 @@ public final class Promise12Test {
         arbitration();
         behindArbitration();
         rows();
+        firstOfARow();
         sixControllers();
+        stuffBitsOfFlexibleOnes();
         Checks.end("Promise12Test");
     }
 
@@ -230,6 +234,49 @@ public final class Promise12Test {
         Checks.due("a took one of b and the question", 2, () -> x.node(0, 2));
         Checks.due("b took three of a, the question and the answer", 5, () -> x.node(1, 2));
         Checks.due("the tester took four and the answer", 5, () -> x.node(2, 2));
+    }
+
+    /**
+     * Two frames of one identifier wait, since b, whose own ones come each 700, keeps the bus from 790 to 1650: of 800 with one value, of 1600 with another.
+     * The one with the lesser octet, wherever that is, goes first; b has the other one's value then.
+     */
+    private static void firstOfARow() {
+        for (int octet = 0; octet < 8; octet++) {
+            for (int lesser = 0; lesser < 2; lesser++) {
+                int place = 8 * (octet < 4 ? octet : 7 - octet);
+                int first = 16843008 + (lesser == 0 ? 1 : 2 << place);
+                int second = 16843008 + (lesser == 0 ? 1 + (1 << place) : 1 << place);
+                CarHouse x = Checks.carOf("controller a", "controller b", "task t a 1 1000 0 1", "chart c t 1", "datum c d " + first, "state c s top plain",
+                    "edge c s s time", "take c d " + second, "after c s 900", "task u b 1 20000 0 1", "chart e u 1", "datum e f 0",
+                    "signal s 64 c d 800" + (octet < 4 ? "" : " turned"), "read s e f 1", "datum e g 170", "signal v 64 e g 700");
+                for (int t = 790; t < 1650; t += 8) {
+                    x.flip(1, t);
+                }
+                x.run(1650);
+                Checks.due("two wait", 2, () -> x.node(0, 1));
+                x.run(560);
+                Checks.due("both came", 2, () -> x.node(1, 2));
+                Checks.due("octet " + octet + (lesser == 0 ? ": in their order" : ": the second one first"), lesser == 0 ? second : first, () -> x.value(1, 0));
+            }
+        }
+    }
+
+    /** The number of stuff bits is told modulo 8: frames with none of them up to a hundred, of 17 bits of check (16 octets) and of 21 (20). */
+    private static void stuffBitsOfFlexibleOnes() {
+        int[] octets = {0, 1, 2, 3, 4, 5, 6, 7, 8, 12, 16, 20, 24, 32, 48, 64};
+        for (int code = 0; code < 16; code++) {
+            for (int kind = 2; kind <= 3; kind++) {
+                for (int filling : new int[] {0, 255, 85, 15}) {
+                    int[] row = new int[octets[code]];
+                    Arrays.fill(row, filling);
+                    CarHouse x = Checks.carOf("controller a");
+                    int acknowledge = new Shown(kind, kind == 2 ? 1365 : 357913941, code, row).show(x, 1);
+                    x.run(acknowledge + 8);
+                    Checks.due("kind " + kind + ", code " + code + ", octets " + filling, 1, () -> x.node(1, 2));
+                    Checks.due("acknowledged", 0, () -> x.bit(acknowledge));
+                }
+            }
+        }
     }
 
     private static void sixControllers() {

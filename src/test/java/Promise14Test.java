@@ -112,10 +112,13 @@ public final class Promise14Test {
         }
         Checks.thrown("flip(0, 0) without a car", IndexOutOfBoundsException.class, () -> flip(new CarHouse(), 0, 0));
         Checks.thrown("flip(0, -1) without a car", IndexOutOfBoundsException.class, () -> flip(new CarHouse(), 0, -1));
-        CarHouse next = car();
-        next.flip(0, 3);
-        next.system();
-        next.run(5);
-        Checks.due("a flip is of its car alone", 0, () -> next.node(0, 0));
+        for (int t : new int[] {0, 1, 19999}) {
+            CarHouse next = car();
+            next.flip(0, t);
+            next.flip(2, t);
+            next.system();
+            next.run(t + 1);
+            Checks.due("a flip at " + t + " is of its car alone", 0, () -> next.node(0, 0) + next.node(2, 0));
+        }
     }
 }

@@ -11,6 +11,7 @@ public final class Promise18Test {
         histories();
         forks();
         joins();
+        domains();
         refusals();
         Checks.end("Promise18Test");
     }
@@ -142,11 +143,17 @@ public final class Promise18Test {
         left.run(1002);
         // Entered at 2, 22, .., 1002; by then b was active each time that it was left.
         is("left by b", left, 0, 3);
-        CarHouse inside = chart(5, "state x on top plain", "state x a on plain", "state x b on plain", "state x h on history", "edge x a b time", "after x a 3",
+        CarHouse inside = chart(5, "state x on top plain", "state x g on history", "state x a on plain", "state x b on plain", "state x h on history", "edge x a b time", "after x a 3",
             "edge x b h time", "after x b 3");
         inside.run(1002);
         // The domain is never left, so its history is its default: a at 2, b at 5, a at 8, .., b at 1001 by the 333rd edge.
-        is("a history in the domain is of the last leaving of the domain", inside, 0, 3);
+        is("a history in the domain is of the last leaving of the domain", inside, 0, 4);
+        CarHouse later = chart(5, "datum x n 0", "state x off top plain", "state x on top plain", "state x a on plain", "state x b on plain", "state x h on history",
+            "edge x off on time", "after x off 2", "edge x a b time", "after x a 2", "edge x b h time", "after x b 2", "enter x a n 1 more");
+        later.run(1002);
+        // Entered at 4, never left: a at 4, b at 6, a at 8, .., b at 1002 by the 500th edge.
+        is("whenever it was entered", later, 0, 4);
+        Checks.due("a each fourth tick", 250, () -> later.value(0, 0));
         CarHouse split = chart(5, "state x s top split", "state x p s plain", "state x q s plain", "state x p1 p plain", "state x p2 p plain", "state x q1 q plain",
             "state x q2 q plain", "state x off top plain", "state x h s deep", "edge x p1 p2 time", "after x p1 3", "edge x q1 q2 time", "after x q1 4",
             "edge x s off time", "after x s 10", "edge x off h time", "after x off 10");
@@ -157,6 +164,14 @@ public final class Promise18Test {
             "edge x s off time", "after x s 10", "edge x off h time", "after x off 10");
         flat.run(1002);
         is("one that is not deep is of none of theirs", flat, 0, 1, 2, 4, 3, 6);
+        // Both are targets, in any order: the deep one counts for all that is in it.
+        for (String both : new String[] {"edge x f d 0\nedge x f h 0", "edge x f h 0\nedge x f d 0"}) {
+            CarHouse two = chart(5, "state x on top plain", "state x a on plain", "state x b on plain", "state x b1 b plain", "state x b2 b plain", "state x off top plain",
+                "state x h on history", "state x d on deep", "state x f top fork", both, "edge x a b2 time", "after x a 3", "edge x on off time", "after x on 10",
+                "edge x off f time", "after x off 10");
+            two.run(1002);
+            is("a history and a deep one", two, 0, 5);
+        }
     }
 
     private static void forks() {
@@ -171,9 +186,15 @@ public final class Promise18Test {
         CarHouse domain = chart(5, head, "edge x f z 0", "edge x f p2 0");
         domain.run(2);
         is("nor is a second child of the domain", domain, 0, 10, 2, 0);
-        CarHouse none = chart(5, head, "edge x f f 0", "edge x f p2 0");
-        none.run(2);
-        is("a fork behind a fork is none at all", none, 3, 6, 4, 7);
+        for (String mark : new String[] {"fork", "join"}) {
+            CarHouse none = chart(5, head, "state x m z " + mark, "edge x f f 0", "edge x f m 0", "edge x f p2 0");
+            none.run(2);
+            is("a " + mark + " behind a fork is none at all", none, 0, 2, 3, 6, 4, 7, 10, 0);
+        }
+        CarHouse one = chart(5, head.replace("state x i top plain\nstate x s top split", "state x s top split\nstate x i s plain").replace("edge x i f 0",
+            "edge x s f 0"), "edge x f z 0", "edge x f p2 0");
+        one.run(2);
+        is("a second child of the domain, in the first state", one, 0, 10, 1, 0);
         CarHouse empty = chart(5, head);
         empty.run(2);
         is("a fork that leads nowhere: the default, again and again", empty, 0, 1);
@@ -196,6 +217,44 @@ public final class Promise18Test {
         CarHouse none = chart(5, head);
         none.run(1002);
         is("a join for which none waits", none, 0, 1);
+    }
+
+    /** How many of some states were left tells the domain: it is the deepest plain one around all sources and targets. */
+    private static void domains() {
+        String left = "datum x n 0\nstate x o top plain\nstate x s o split\nstate x p s plain\nstate x q s plain\nstate x p1 p plain\nstate x q1 q plain\n"
+            + "state x w o plain\nstate x z top plain\nleave x o n 100 more\nleave x s n 10 more\nleave x p1 n 1 more\n";
+        CarHouse join = chart(5, left, "state x j top join", "edge x p1 j 0", "edge x q1 j 0", "edge x j w 0");
+        join.run(2);
+        is("a join that stands elsewhere", join, 0, 7);
+        Checks.due("o is around those that it waits for and the target", 11, () -> join.value(0, 0));
+        CarHouse out = chart(5, left, "state x j s join", "edge x p1 j 0", "edge x q1 j 0", "edge x j z 0");
+        out.run(2);
+        is("a join that leads out", out, 0, 8);
+        Checks.due("o is left", 111, () -> out.value(0, 0));
+        CarHouse first = chart(5, left, "state x f o fork", "edge x f z 0", "edge x p1 f 0");
+        first.run(2);
+        is("a fork whose edge is the first of all", first, 0, 8);
+        Checks.due("o is left", 111, () -> first.value(0, 0));
+        CarHouse second = chart(5, left, "state x f o fork", "edge x f w 0", "edge x p1 f 0", "edge x f z 0");
+        second.run(2);
+        // z is a target that widens the domain to the chart, but w was looked at first.
+        is("a target that is not entered", second, 0, 7);
+        Checks.due("counts for the domain", 111, () -> second.value(0, 0));
+        for (String mark : new String[] {"fork", "join"}) {
+            CarHouse none = chart(5, left, "state x f o fork", "state x m z " + mark, "edge x p1 f 0", "edge x f w 0", "edge x f m 0", "edge x z z 0");
+            none.run(2);
+            is("a " + mark + " behind a fork", none, 0, 7);
+            Checks.due("does not", 11, () -> none.value(0, 0));
+        }
+        CarHouse waits = chart(5, left, "state x j top join", "edge x w j 0", "edge x p1 j 0", "edge x q1 j 0", "edge x j z 0");
+        waits.run(1002);
+        is("the first edge of all is from one that is not active", waits, 0, 2);
+        CarHouse plain = chart(5, left, "edge x p1 p1 time", "after x p1 600", "edge x q1 q1 9", "edge x p1 z 8");
+        plain.run(1002);
+        Checks.due("an edge to its own state leaves that alone", 1, () -> plain.value(0, 0));
+        CarHouse split = chart(5, left, "edge x p1 q1 time", "after x p1 600");
+        split.run(1002);
+        Checks.due("a split one is no domain", 11, () -> split.value(0, 0));
     }
 
     private static CarHouse halfway() {

@@ -8,6 +8,8 @@ public final class Promise19Test {
         wrapping();
         atOnce();
         ticks();
+        orderOfActs();
+        orderOfEdges();
         refusals();
         Checks.end("Promise19Test");
     }
@@ -55,6 +57,10 @@ public final class Promise19Test {
         x.system();
         holds("told", x, 0, 4);
         holds("not told", x, 31, 0);
+        x.cut(x.cut(46));
+        x.system();
+        Checks.due("a chart yet", 1, () -> x.count(2));
+        holds("none told in a third one", x, 0, 0);
     }
 
     private static void sums() {
@@ -142,6 +148,65 @@ public final class Promise19Test {
         once.run(3002);
         holds("a time without an edge that is taken is spoken, too", once, 0, 1);
         Checks.due("and asked once", 1, () -> once.chart(0, 6));
+    }
+
+    /**
+     * For each two of some states a datum that the one makes 1 and the other 2: it tells which was entered, or left, last.
+     * They are o 1, a 2, a1 3, a2 4 in a1, b 5, b1 6; a and b stand side by side in o.
+     */
+    private static void orderOfActs() {
+        String[] names = {"o", "a", "a1", "a2", "b", "b1"};
+        int[] depth = {1, 2, 3, 4, 2, 3};
+        for (String when : new String[] {"enter", "leave"}) {
+            StringBuilder lines = new StringBuilder("state x o top split\nstate x a o plain\nstate x a1 a plain\nstate x a2 a1 plain\nstate x b o plain\n"
+                + "state x b1 b plain\nstate x z top plain\nedge x o z 0\n");
+            StringBuilder want = new StringBuilder();
+            int data = 0;
+            for (int i = 0; i < names.length; i++) {
+                for (int k = i + 1; k < names.length; k++) {
+                    lines.append("datum x d").append(data).append(" 0\n");
+                    lines.append(when).append(" x ").append(names[k]).append(" d").append(data).append(" 2\n");
+                    lines.append(when).append(" x ").append(names[i]).append(" d").append(data).append(" 1\n");
+                    boolean firstGoesFirst = depth[i] == depth[k] || (when.equals("enter") ? depth[i] < depth[k] : depth[i] > depth[k]);
+                    want.append(firstGoesFirst ? 2 : 1);
+                    data++;
+                }
+            }
+            CarHouse x = chart(lines.toString());
+            x.run(2);
+            StringBuilder got = new StringBuilder();
+            for (int d = 0; d < data; d++) {
+                got.append(x.value(0, d));
+            }
+            Checks.same(when + ": by depth, then by number", want.toString(), got.toString());
+        }
+        CarHouse x = chart("datum x n 0", "state x a top plain", "state x b top plain", "edge x a b 0", "enter x b n 5", "take x n 1", "leave x a n 3 more",
+            "take x n 10 more", "enter x b n 100 more", "take x n 20 more");
+        x.run(2);
+        holds("exit, edge, entry, each in the order of lines", x, 0, 105);
+        CarHouse y = chart("datum x n 0", "state x a top plain", "state x b top plain", "edge x a b 0", "take x n 10 more", "leave x a n 3", "take x n 20 more");
+        y.run(2);
+        holds("the exit comes before the edge", y, 0, 33);
+    }
+
+    /** Edges that are ready at once, in regions of a split one: the deepest first, then by number; one that would leave what another leaves is not taken. */
+    private static void orderOfEdges() {
+        String states = "datum x n 0\nstate x s top split\nstate x p s plain\nstate x q s plain\nstate x r s plain\nstate x p1 p plain\nstate x p2 p plain\n"
+            + "state x q1 q plain\nstate x q2 q1 plain\nstate x q3 q1 plain\nstate x r1 r plain\nstate x r2 r plain\nafter x s 600\n";
+        CarHouse deep = chart(states, "edge x p1 p2 0", "take x n 1", "edge x q2 q3 0", "take x n 2", "edge x r1 r2 0", "take x n 5 more");
+        deep.run(2);
+        // q2 first, then p1, then r1: 2, 1, 6.
+        holds("the deepest, then by number", deep, 0, 6);
+        CarHouse conflict = chart(states, "datum x k 0", "edge x p1 p2 0", "take x n 1 more", "edge x p p 0 if k eq 0", "take x n 100 more", "edge x r1 r2 0",
+            "take x n 10 more", "take x k 1");
+        conflict.run(2);
+        // Of the first two only the deeper one, of the first step; then the third one, of the same step, makes k 1.
+        holds("one behind them is not taken", conflict, 0, 11);
+        CarHouse between = chart(states, "edge x p1 p2 0", "take x n 1 more", "edge x p1 p1 0", "take x n 100 more", "edge x r1 r2 0", "take x n 10 more",
+            "edge x q1 q1 0", "take x n 1000 more");
+        between.run(2);
+        // The last one leads to its own state, so it is taken in each of the fifty steps of the chain.
+        holds("one between them is not taken", between, 0, 50011);
     }
 
     private static CarHouse halfway() {

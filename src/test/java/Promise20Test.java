@@ -138,6 +138,13 @@ public final class Promise20Test {
         Checks.due("event 99", 1, () -> events.value(1, 1));
         Checks.due("event 1", 1, () -> events.value(1, 2));
         tells("98 and 2 are dropped", events, 1, DROPPED, 2);
+        CarHouse both = reading(5, "state y s top split", "state y p s plain", "state y q s plain", "state y p1 p plain", "state y p2 p plain", "state y q1 q plain",
+            "state y q2 q plain", "edge y p1 p2 9", "edge y q1 q2 9", "edge y s s 9", "take y k 1 more", "read g y d 9");
+        both.run(702);
+        Checks.due("one event takes edges of all regions", 5, () -> both.active(1, 2));
+        Checks.due("in one step", 7, () -> both.active(1, 3));
+        Checks.due("but none that leaves these, too", 0, () -> both.value(1, 1));
+        tells("two edges", both, 1, DROPPED, 0, TAKEN, 2);
         CarHouse time = reading(5, "state y s top plain", "after y s 100");
         time.run(1702);
         tells("a time without an edge is not dropped", time, 1, DROPPED, 0);

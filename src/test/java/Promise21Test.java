@@ -229,6 +229,10 @@ public final class Promise21Test {
             tells("good cycle " + good, x, 0, ENTRY, good < 40 ? 1 : -1);
             tells("good cycle " + good, x, 0, FIRST, good < 40 ? 2 : -1);
         }
+        x.silence(0, true);
+        x.run(3500);
+        tells("its trips were forgotten: the next one is the first", x, 0, STATUS, 39);
+        tells("with a new entry", x, 0, ENTRY, 1);
     }
 
     private static String[] watches(int... priorities) {
@@ -305,6 +309,10 @@ public final class Promise21Test {
         tells("the other one's", x, 1, LAST, 18);
         entries("in their places", x, 1, 2);
         CarHouse gone = passedAgain("watch s b 9");
+        gone.cycle(true);
+        gone.run(500);
+        gone.cycle(true);
+        tells("aged", gone, 0, AGE, 1);
         Checks.same("all codes are cleared", "84", Checks.asked(gone, 0, 600, 20));
         tells("no entry", gone, 0, FIRST, -1);
         tells("no entry", gone, 0, LAST, -1);

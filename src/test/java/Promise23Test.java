@@ -1,3 +1,6 @@
+import java.util.ArrayList;
+import java.util.List;
+
 /** Promise 23, counted, to its edges: the 200th frame and the next one, the 16th event and the next one, a wait of 1000 and one less. */
 public final class Promise23Test {
     private static final int LOST = 0, REFUSED = 1, EVENTS = 2, ANSWERS = 3, ENDED = 4;
@@ -16,6 +19,8 @@ public final class Promise23Test {
         senderWaits();
         receiverWaits();
         onceForAQuestion();
+        anotherAtTheReceiver();
+        lostReachesNobody();
         refusals();
         Checks.end("Promise23Test");
     }
@@ -201,8 +206,10 @@ public final class Promise23Test {
             counts("1000 ticks behind frame " + heard, x, ENDED, 1);
             Checks.due("not any more", -1, x::asking);
             x.run(2000);
-            Checks.due("what comes later does nothing", 0, x::answers);
+            Checks.due("the other frames came", 3, () -> x.node(0, 2));
+            Checks.due("they do nothing", 0, x::answers);
             counts("no answer", x, ANSWERS, 0);
+            Checks.due("the controller sent its FLOW alone", 1, () -> x.node(1, 2) + x.node(0, 1));
         }
     }
 
@@ -245,6 +252,106 @@ public final class Promise23Test {
         }
         y.run(5000);
         counts("the sender's end alone", y, ENDED, 1);
+    }
+
+    /**
+     * Message 5 goes to the receiver that waits for the rest of message 1: that one's receiving ends, and with it what is asked.
+     * Messages 1 and 2 are questions whose senders ended before their frames came through; 3 is a question, 4 its answer.
+     */
+    private static void anotherAtTheReceiver() {
+        for (int octets = 1; octets <= 8; octets += 7) {
+            CarHouse x = Checks.carOf("controller a");
+            for (int t = 10; t < 2000; t += 11) {
+                x.flip(1, t);
+            }
+            for (int i = 1; i <= 2; i++) {
+                Checks.say(x, 1, 2, 3, 4, 5, 6, 7, 8);
+                x.ask(0);
+                x.run(1000);
+                counts("the sender of message " + i, x, ENDED, i);
+            }
+            Checks.due("nothing came through", 0, () -> x.node(0, 2));
+            Checks.say(x, 25);
+            x.ask(0);
+            while (x.asking() == 0 && x.time() < 4000) {
+                x.run(1);
+            }
+            Checks.same("message 4 is the answer to 3", "89 0", Checks.answerOf(x));
+            counts("nothing more ended", x, ENDED, 2);
+            int taken = x.node(0, 2);
+            for (int i = 0; i < octets; i++) {
+                Checks.say(x, 20);
+            }
+            x.ask(0);
+            while (x.node(0, 2) == taken) {
+                Checks.due("message 5 is asked", 0, x::asking);
+                counts("up to its first frame", x, ENDED, 2);
+                x.run(1);
+            }
+            counts("with it the receiving of message 1 ends", x, ENDED, 3);
+            Checks.due("and what is asked", -1, x::asking);
+            x.run(700);
+            Checks.due("its answer is passed over", 0, x::answers);
+            counts("one answer", x, ANSWERS, 1);
+        }
+    }
+
+    /**
+     * The bus has no room for a question's frame, so it is lost in the TRANSFER, too: a frame of its identifier, which flips show to a,
+     * brings nothing. With room for it, it does.
+     */
+    private static void lostReachesNobody() {
+        for (int room = 0; room < 2; room++) {
+            // b sends 20 frames each 500: 180 by 4500, 200 by 5000.
+            int asked = room == 1 ? 4600 : 5100;
+            CarHouse x = shownQuestion(asked);
+            counts(room == 1 ? "there is room" : "there is none", x, LOST, 1 - room);
+            Checks.due("a took the frame", 1, () -> x.node(0, 2) - taken(asked));
+            Checks.due(room == 1 ? "the question reached a, and it answers" : "nothing reached a", room, () -> x.node(0, 1));
+        }
+    }
+
+    private static CarHouse crowdedByB(int asked) {
+        CarHouse x = Checks.carOf(HEAD.replace("datum e f 1", "datum e f -1") + Faults.many(20, "signal s% 64 e f 500"));
+        x.run(asked);
+        Checks.say(x, 25);
+        x.ask(0);
+        x.run(1);
+        return x;
+    }
+
+    private static int taken(int asked) {
+        return crowdedByB(asked).node(0, 2);
+    }
+
+    /** The flips that make a, once it is quiet or pauses, see ones, and then a frame 1536, are found bit by bit. */
+    private static CarHouse shownQuestion(int asked) {
+        List<Integer> wire = new Shown(0, 1536, 8, 0, 25, 0, 0, 0, 0, 0, 0).lay();
+        List<Integer> seen = new ArrayList<>();
+        // Ones for so long that whatever a was, it has flagged, waited, cleared and paused.
+        for (int i = 0; i < 60; i++) {
+            seen.add(1);
+        }
+        seen.addAll(wire);
+        for (int i = 0; i < 10; i++) {
+            seen.add(i == 0 ? 0 : 1);
+        }
+        CarHouse probe = crowdedByB(asked);
+        int from = probe.time();
+        List<Integer> flips = new ArrayList<>();
+        int last = from + 60 + wire.size() + 7;
+        for (int t = from; t <= last; t++) {
+            CarHouse x = crowdedByB(asked);
+            flips.forEach(at -> x.flip(0, at));
+            x.run(t + 1 - x.time());
+            if (x.bit(t) != seen.get(t - from)) {
+                flips.add(t);
+            }
+        }
+        CarHouse x = crowdedByB(asked);
+        flips.forEach(at -> x.flip(0, at));
+        x.run(last + 1 - x.time());
+        return x;
     }
 
     private static CarHouse halfway() {

@@ -5,6 +5,8 @@ public final class Promise25Test {
     public static void main(String[] args) {
         Checks.promise(25);
         howMany();
+        wholeWithTheLast();
+        lengthOfTheFirst();
         eachController();
         noAnswerAnyMore();
         alreadyAsked();
@@ -26,6 +28,45 @@ public final class Promise25Test {
             Checks.due(octets + " octets take so many frames", frames, () -> x.run(2500));
             Checks.same("the answer", "127 1 17", Checks.answerOf(x));
             Checks.due("there are none any more", 1, () -> x.say((byte) 1));
+        }
+    }
+
+    /** A question is whole with its last frame, not with the one before: the answer waits in the same microsecond. */
+    private static void wholeWithTheLast() {
+        for (int octets = 8; octets <= 100; octets += octets < 30 ? 1 : 7) {
+            CarHouse x = Checks.carOf("controller a");
+            for (int i = 0; i < octets; i++) {
+                Checks.say(x, 1);
+            }
+            x.ask(0);
+            int frames = 1 + (octets - 6 + 6) / 7;
+            while (x.node(0, 2) < frames - 1 || x.node(1, 2) == 0) {
+                x.run(1);
+            }
+            // The FLOW has been taken, and with one bit more it is done.
+            x.run(1);
+            while (x.node(0, 2) < frames) {
+                Checks.same(octets + " octets", "0", Integer.toString(x.node(0, 1)));
+                x.run(1);
+            }
+            Checks.due(octets + " octets: the answer", 1, () -> x.node(0, 1));
+        }
+    }
+
+    /** Octet 0 of FIRST has the lowest four bits of the length, of SINGLE none of it. */
+    private static void lengthOfTheFirst() {
+        for (int octets : new int[] {1, 7, 8, 15, 16, 17, 31, 32, 99, 100}) {
+            CarHouse x = Checks.carOf("controller a");
+            StringBuilder want = new StringBuilder("1536 | ").append(octets <= 7 ? 0 : 16 + octets % 16);
+            for (int i = 0; i < octets; i++) {
+                Checks.say(x, 200 + i % 50);
+            }
+            for (int i = 0; i < 7; i++) {
+                want.append(' ').append(i < Math.min(octets, octets <= 7 ? 7 : 6) ? 200 + i : 0);
+            }
+            x.ask(0);
+            x.run(300);
+            Checks.same(octets + " octets", want + " | right", Checks.frameAt(x, 1));
         }
     }
 

@@ -90,6 +90,9 @@ public final class Promise27Test {
         answers("the first chart", x, 0, "98 1 0 0 0 0 0 0 0 0 0", 34, 1, 0);
         answers("no second one", x, 0, "127 34 49", 34, 2, 0);
         answers("no twelfth one", x, 0, "127 34 49", 34, 12, 0);
+        x.cut(12);
+        x.system();
+        answers("a third car has none at all", x, 0, "127 34 49", 34, 1, 0);
     }
 
     private static void writes(String what, CarHouse x, int controller, String want, int chart, int datum, long v) {

@@ -6,6 +6,7 @@ public final class ProtectTest {
         "signal g 24 x n 500 turned", "signal f 8 x n 600", "protect a 500 9", "read g y d 0", "watch g b 7", "watch g c 7"};
 
     public static void main(String[] args) {
+        Checks.promise(9);
         octets();
         sentAgain();
         silentForAWhile();

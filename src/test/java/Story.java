@@ -1,3 +1,4 @@
+import java.util.function.IntBinaryOperator;
 import java.util.function.LongSupplier;
 
 /** All that a house answers, now and behind some calls more, as one text: two houses that differ in anything are told apart by it. */
@@ -61,7 +62,7 @@ final class Story {
         tellPast();
     }
 
-    private void rows(String what, int rows, int columns, java.util.function.IntBinaryOperator call) {
+    private void rows(String what, int rows, int columns, IntBinaryOperator call) {
         for (int i = 0; i < rows; i++) {
             for (int k = 0; k < columns; k++) {
                 int row = i;

@@ -5,19 +5,28 @@ public final class TesterTest {
         "signal s 8 c d 500"};
 
     public static void main(String[] args) {
+        Checks.promise(24);
         saying();
+        Checks.promise(25);
         oneQuestion();
+        Checks.promise(27);
         sessions();
         reading();
         writing();
         wrongKeys();
         seeds();
         lengths();
+        Checks.promise(25);
         framesOnTheBus();
+        Checks.promise(26);
         endedSide();
+        Checks.promise(23);
         noRoomForQuestions();
+        Checks.promise(25);
         noMessageLeft();
+        Checks.promise(26);
         questionBehindAnEnd();
+        Checks.promise(23);
         counted();
         Checks.end("TesterTest");
     }

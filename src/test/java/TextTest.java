@@ -1,9 +1,12 @@
 /** Promises 1 to 3: a new object, text, cut. */
 public final class TextTest {
     public static void main(String[] args) {
+        Checks.promise(1);
         newObject();
+        Checks.promise(2);
         letters();
         fullText();
+        Checks.promise(3);
         cutText();
         Checks.end("TextTest");
     }

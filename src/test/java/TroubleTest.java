@@ -3,8 +3,11 @@ public final class TroubleTest {
     private static final int STATUS = 0, AGE = 1, FIRST = 2, LAST = 3, ENTRY = 4;
 
     public static void main(String[] args) {
+        Checks.promise(21);
         silent();
+        Checks.promise(22);
         cycles();
+        Checks.promise(21);
         lamps();
         ageing();
         snapshots();

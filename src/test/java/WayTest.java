@@ -135,6 +135,7 @@ public final class WayTest {
     }
 
     public static void main(String[] args) {
+        Checks.promise(9);
         for (int controllers = 1; controllers <= 6; controllers++) {
             questionFlow(controllers, 0);
             questionFlow(controllers, controllers - 1);
