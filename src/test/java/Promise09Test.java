@@ -15,6 +15,8 @@ public final class Promise09Test {
         notAtZero();
         valuesOfBits();
         firstValue();
+        sentBeforeTheTask();
+        takenBeforeTheTask();
         counters();
         sixteenKeys();
         nobodyElsesFrames();
@@ -143,6 +145,39 @@ public final class Promise09Test {
             y.run(900);
             return y.value(1, 31) == 4660 ? 0 : 1;
         });
+    }
+
+    /** In one microsecond frames are sent first, and a task that is done in it comes later: one done a microsecond before comes in time. */
+    private static void sentBeforeTheTask() {
+        for (int offset = 497; offset <= 499; offset++) {
+            CarHouse x = Checks.carOf("controller a", "controller b", "task t a 1 20000 " + offset + " 1", "chart c t 1", "datum c d 7", "state c s top plain",
+                "enter c s d 9", "signal s 8 c d 500");
+            x.run(900);
+            Checks.same("done at " + (offset + 2), "64 | " + (offset + 2 <= 500 ? 9 : 7) + " 0 0 0 0 0 0 0 | right", Checks.frameAt(x, 500));
+        }
+    }
+
+    /** In one microsecond frames are taken before tasks are done: the event of a frame happens then, if its chart's task is done just then. */
+    private static void takenBeforeTheTask() {
+        String lines = HEAD + "signal s 16 c d 500\nstate e p top plain\nedge e p p 5\ndatum e k 0\ntake e k 1 more\nread s e f 5";
+        CarHouse probe = Checks.carOf(lines);
+        probe.run(501);
+        while (probe.node(1, 2) == 0) {
+            probe.run(1);
+        }
+        int taken = probe.time();
+        for (int later = -1; later <= 1; later++) {
+            int done = taken + later;
+            CarHouse x = Checks.carOf(lines.replace("task u b 1 20000 0 1", "task u b 1 20000 " + (done - 2) + " 1"));
+            x.run(taken);
+            int happened = later == 0 ? 1 : 0;
+            int waits = later == 0 ? 0 : 1;
+            Checks.due("done " + later + " behind the taking: happened", happened, () -> x.value(1, 1));
+            Checks.due("done " + later + " behind the taking: waits", waits, () -> x.chart(1, 1));
+            x.run(1);
+            int then = later >= 0 ? 1 : 0;
+            Checks.due("a microsecond later", then, () -> x.value(1, 1));
+        }
     }
 
     /** What b makes of frames with key 3 at position 0, shown to it by flips: the answer is how many of them it refused. */

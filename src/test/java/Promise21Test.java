@@ -6,6 +6,7 @@ public final class Promise21Test {
         Checks.promise(21);
         threePeriods();
         behindAFrame();
+        justInTime();
         twoEvents();
         tripsAndLamps();
         goodCycles();
@@ -69,6 +70,40 @@ public final class Promise21Test {
         x.run(1);
         tells("six periods behind", x, 0, STATUS, 39);
         tells("one that passed, two that failed", x, 0, FIRST, 3);
+    }
+
+    /** A frame that is taken in the very microsecond in which three periods are over is heard before that is looked at; one bit later it is not. */
+    private static void justInTime() {
+        for (int late = 0; late <= 1; late++) {
+            CarHouse x = watching(500, "watch s b 65");
+            x.run(501);
+            while (x.node(1, 2) == 0) {
+                x.run(1);
+            }
+            int noted = x.time();
+            x.silence(0, true);
+            x.run(1900 - x.time());
+            x.silence(0, false);
+            if (late == 1) {
+                // The frame of 2000 begins a bit later, since its sender has to listen to a 0 first.
+                x.flip(0, 1999);
+            }
+            x.run(101);
+            x.silence(0, true);
+            while (x.node(1, 2) == 1) {
+                x.run(1);
+            }
+            int heard = x.time();
+            int between = heard - noted;
+            if (late == 0) {
+                Checks.due("three periods", 1500, () -> between);
+            } else {
+                Checks.due("more than three periods", 1, () -> between > 1500 ? 1 : 0);
+            }
+            x.run(heard + 3000 - x.time());
+            tells("failed by two events behind that", x, 0, STATUS, 39);
+            tells(late == 0 ? "none failed before" : "one failed before", x, 0, FIRST, 4 + late);
+        }
     }
 
     /** One failed event and one passed event are none of either; two in a row are a test, whatever was before. */

@@ -8,6 +8,7 @@ public final class Promise27Test {
         bounds();
         sessions();
         reading();
+        readBeforeTheTask();
         twelveCharts();
         writing();
         rights();
@@ -77,6 +78,23 @@ public final class Promise27Test {
         answers("a chart of b at a", x, 0, "127 34 49", 34, 2, 0);
         answers("a chart of b at b", x, 1, "98 2 0 0 0 0 0 0 0 1 2", 34, 2, 0);
         answers("a chart of a at b", x, 1, "127 34 49", 34, 3, 0);
+    }
+
+    /** A question that is taken in the microsecond in which the chart's task is done reads the datum as it was before that. */
+    private static void readBeforeTheTask() {
+        String[] lines = {"controller a", "task t a 1 20000 19000 1", "chart c t 1", "datum c d 7", "state c s top plain", "enter c s d 9"};
+        CarHouse probe = Checks.carOf(lines);
+        Checks.say(probe, 34, 1, 0);
+        probe.ask(0);
+        while (probe.node(0, 2) == 0) {
+            probe.run(1);
+        }
+        int taken = probe.time();
+        for (int later = -1; later <= 1; later++) {
+            lines[1] = "task t a 1 20000 " + (taken + later - 2) + " 1";
+            CarHouse x = Checks.carOf(lines);
+            answers("the task is done " + later + " behind the taking", x, 0, "98 1 0 0 0 0 0 0 0 0 " + (later < 0 ? 9 : 7), 34, 1, 0);
+        }
     }
 
     private static void twelveCharts() {
