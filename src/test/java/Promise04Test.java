@@ -68,6 +68,10 @@ public final class Promise04Test {
             bounds(line, -999999999, 999999999);
             Faults.good(BASE + line.replace("%", "-0"));
         }
+        // A sign before nine digits is fine, and 0 with a sign is 0.
+        Faults.good(BASE + "task r a -0 500 -000000000 1\nchart n r -0\nedge c s s -0\nread g e f -0\ndatum n x -000000001");
+        Faults.fault(5, BASE + "task r a ^-000000001 500 0 1");
+        Faults.fault(5, BASE + "task r a ^-0000000000 500 0 1");
         // The second operand may be a datum, so what is no number is a word that means nothing.
         Faults.good(BASE + "edge c s s 1 if d eq 0");
         Faults.good(BASE + "edge c s s 1 if d eq 31");
