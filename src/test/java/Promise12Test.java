@@ -159,6 +159,12 @@ public final class Promise12Test {
         sends.flip(0, end + 3);
         goes("0 at its third with a frame", sends, 0, QUIET, 501, SENDING, end - 500, PAUSING, 3, SENDING, 20);
         Checks.due("the 0 was not on the bus", 1, () -> sends.bit(end + 3));
+        StringBuilder bits = new StringBuilder();
+        for (int t = end + 4; t < end + 12; t++) {
+            bits.append(sends.bit(t));
+        }
+        // Of 72: four zeros more, the stuff bit behind five, then 1 0 0.
+        Checks.same("that bit counts as put", "00001100", bits.toString());
         CarHouse two = car("signal r 64 c d 500");
         goes("without one it begins behind the pause", two, 0, QUIET, 501, SENDING, end - 500, PAUSING, 3, QUIET, 1, SENDING, 20);
     }

@@ -54,6 +54,14 @@ public final class Promise13Test {
             told("a bit seen otherwise at " + t, flipped(0, t), 0, BIT, 0, t);
         }
         told("1 at ACKNOWLEDGE", flipped(0, END - 8), 0, ACKNOWLEDGE, 0, END - 8);
+        for (int t : new int[] {540, END - 8, END}) {
+            CarHouse x = Checks.carOf(CAR);
+            x.flip(0, t);
+            Checks.due("not DONE with an error at " + t, 0, () -> x.run(END + 1));
+            Checks.due("it stays in its row", 1, () -> x.node(0, 1));
+            Checks.due("and is sent again", 1, () -> x.run(200));
+            Checks.due("then it is no more there", 0, () -> x.node(0, 1));
+        }
         CarHouse next = flipped(0, END + 1);
         told("behind the last END it pauses", next, 0, OVERLOAD, 0, END + 1);
         Checks.due("the frame is DONE then", 0, () -> next.node(0, 1));

@@ -12,6 +12,7 @@ public final class Promise18Test {
         forks();
         joins();
         domains();
+        whoComesFirst();
         refusals();
         Checks.end("Promise18Test");
     }
@@ -154,6 +155,15 @@ public final class Promise18Test {
         // Entered at 4, never left: a at 4, b at 6, a at 8, .., b at 1002 by the 500th edge.
         is("whenever it was entered", later, 0, 4);
         Checks.due("a each fourth tick", 250, () -> later.value(0, 0));
+        // on is left at 22 with a and a2 in it, a at 37 with a2; by the edge from b to the deep one, at 39, on is the domain.
+        for (String kind : new String[] {"history", "deep"}) {
+            CarHouse domain = chart(5, "datum x n 0", "state x off top plain", "state x on top plain", "state x a on plain", "state x a1 a plain",
+                "state x a2 a plain", "state x b on plain", "state x d on " + kind, "after x off 10", "edge x off on time", "after x a1 3",
+                "edge x a1 a2 time if n lt 2", "after x on 10", "edge x on off time if n eq 0", "leave x on n 1", "after x a2 2", "edge x a2 b time if n eq 1",
+                "after x b 2", "edge x b d time", "take x n 2");
+            domain.run(1002);
+            is("a " + kind + " one in the domain, and what is in its child", domain, 0, kind.equals("deep") ? 5 : 4);
+        }
         CarHouse split = chart(5, "state x s top split", "state x p s plain", "state x q s plain", "state x p1 p plain", "state x p2 p plain", "state x q1 q plain",
             "state x q2 q plain", "state x off top plain", "state x h s deep", "edge x p1 p2 time", "after x p1 3", "edge x q1 q2 time", "after x q1 4",
             "edge x s off time", "after x s 10", "edge x off h time", "after x off 10");
@@ -255,6 +265,28 @@ public final class Promise18Test {
         CarHouse split = chart(5, left, "edge x p1 q1 time", "after x p1 600");
         split.run(1002);
         Checks.due("a split one is no domain", 11, () -> split.value(0, 0));
+    }
+
+    /** Edges that are ready at once: by the depth of the state that they are from, a JOIN's its own, whatever they leave. */
+    private static void whoComesFirst() {
+        String split = "datum x n 0\nstate x s top split\nstate x p s plain\nstate x q s plain\nstate x p1 p plain\nstate x q1 q plain\nstate x p2 p plain\n"
+            + "state x q2 q plain\nstate x z top plain\n";
+        CarHouse join = chart(5, split, "state x j top join", "edge x p1 j 0", "edge x q1 j 0", "edge x j z 0 if n eq 0", "take x n 1", "edge x p p2 0 if n eq 0",
+            "take x n 2");
+        join.run(2);
+        is("p is deeper than the join, though not than those that it waits for", join, 0, 1, 2, 6);
+        CarHouse inside = chart(5, split, "state x j p join", "edge x p1 j 0", "edge x q1 j 0", "edge x j z 0 if n eq 0", "take x n 1", "edge x p p2 0 if n eq 0",
+            "take x n 2");
+        inside.run(2);
+        is("a join that is deeper than p", inside, 0, 8);
+        CarHouse wide = chart(5, "datum x n 0", "state x o top plain", "state x a o plain", "state x a1 a plain", "state x b o plain", "state x z top plain",
+            "edge x a b 0 if n eq 0", "take x n 1", "edge x a1 z 0 if n eq 0", "take x n 2");
+        wide.run(2);
+        is("the deeper state's edge, though its domain is the chart", wide, 0, 5);
+        // The second edge is not taken because of the first one, so what it would leave is free for the third one.
+        CarHouse third = chart(5, split, "edge x p1 p2 0 if n eq 0", "take x n 1", "edge x p1 z 0 if n eq 0", "edge x q1 q2 0 if n eq 0");
+        third.run(2);
+        is("one that is not taken keeps nothing from others", third, 0, 1, 2, 6, 3, 7);
     }
 
     private static CarHouse halfway() {

@@ -7,6 +7,7 @@ public final class Promise19Test {
         sums();
         wrapping();
         atOnce();
+        withoutRoomForEvents();
         ticks();
         orderOfActs();
         orderOfEdges();
@@ -115,6 +116,20 @@ public final class Promise19Test {
     }
 
     /** A time speaks when the state was entered so long ago, or longer, when the task is done; not one tick before. */
+    /** Seventeen reads of one frame: the last one's event is lost, its value is not; nor is that of the next frame, whose events are all lost. */
+    private static void withoutRoomForEvents() {
+        CarHouse x = Checks.carOf("controller a", "controller b", "task t a 1 1000 700 1", "chart c t 1", "datum c n 5", "state c s top plain", "enter c s n 6",
+            "task u b 1 20000 19000 1", "chart e u 1", "datum e f 0", "datum e last 0", "signal g 8 c n 500", Faults.many(16, "read g e f 9"), "read g e last 9");
+        x.run(690);
+        Checks.due("sixteen wait", 16, () -> x.chart(1, 1));
+        Checks.due("one is lost", 1, () -> x.counted(2));
+        Checks.due("the value of the one that is lost", 5, () -> x.value(1, 1));
+        x.run(500);
+        Checks.due("all of the next frame are lost", 18, () -> x.counted(2));
+        Checks.due("the first one's next value", 6, () -> x.value(1, 0));
+        Checks.due("the last one's", 6, () -> x.value(1, 1));
+    }
+
     private static void ticks() {
         for (int ticks : new int[] {1, 999, 1000, 1001, 1999, 2000, 2001}) {
             CarHouse x = chart("datum x n 0", "state x s top plain", "state x z top plain", "edge x s z time", "take x n 1 more", "after x s " + ticks);

@@ -91,6 +91,12 @@ public final class Promise20Test {
         Checks.due("all 2500 times, in three calls", 2500, () -> x.value(1, 1));
         Checks.due("the event of the third call", 1, () -> x.value(1, 2));
         tells("two calls were stopped", x, 1, STOPS, 2, DROPPED, 0, QUEUED, 0);
+        // One event, so one call: it is stopped at a thousand times, and none goes on behind it.
+        CarHouse one = Checks.carOf("controller a", "controller b", "task t a 1 20000 0 1", "task u b 1 1500 0 1", "chart x t 5", "datum x n 5", "chart y u 0",
+            "datum y d 0", "datum y k 0", "signal g 8 x n 500", "state y s top plain", "edge y s s time", "take y k 1 more", "after y s 1", "read g y d 7");
+        one.run(1502);
+        Checks.due("a thousand of 1500 times", 1000, () -> one.value(1, 1));
+        tells("one call", one, 1, STOPS, 1, DROPPED, 0, QUEUED, 0);
         CarHouse y = reading(3, "state y s top plain", "edge y s s 0", "take y k 1 more", "edge y s s 7", "take y m 1 more", "read g y d 7", "read g y d 7");
         y.run(702);
         // The start's chain ends the first call; the second one's event happens, then its chain is stopped.
@@ -218,6 +224,16 @@ public final class Promise20Test {
             "edge x s o time if z div z");
         unasked.run(1002);
         tells("a guard is asked only where its state is active and its event at hand", unasked, 0, BY_ZERO, 0, HELD, 0, NOT_HELD, 0);
+        CarHouse fork = chart(5, "datum x z 0", "state x a top plain", "state x b top plain", "state x f top fork", "edge x a f 0", "edge x f b 0 if z div z",
+            "edge x f a 9 if z ne z");
+        fork.run(2);
+        Checks.due("a fork leads there whatever its edge's guard", 2, () -> fork.active(0, 0));
+        tells("and asks for none", fork, 0, BY_ZERO, 0, HELD, 0, NOT_HELD, 0, TAKEN, 1);
+        CarHouse join = chart(5, "datum x z 0", "state x s top split", "state x p s plain", "state x q s plain", "state x j top join", "state x b top plain",
+            "edge x p j 0 if z div z", "edge x q j 9 if z ne z", "edge x j b 0 if z eq 0");
+        join.run(2);
+        Checks.due("a join waits for states, not for guards", 5, () -> join.active(0, 0));
+        tells("only the edge from it has one that is asked", join, 0, BY_ZERO, 0, HELD, 1, NOT_HELD, 0, TAKEN, 1);
         CarHouse fresh = chart(5, "state x s top plain");
         tells("before the start", fresh, 0, DROPPED, 0, QUEUED, 0, STOPS, 0, ENTERED, 0, TAKEN, 0, HELD, 0, NOT_HELD, 0, BY_ZERO, 0);
     }

@@ -19,7 +19,9 @@ public final class Promise23Test {
         senderWaits();
         receiverWaits();
         onceForAQuestion();
+        twoSidesAtOnce();
         anotherAtTheReceiver();
+        othersDoNothing();
         lostReachesNobody();
         refusals();
         Checks.end("Promise23Test");
@@ -254,6 +256,42 @@ public final class Promise23Test {
         counts("the sender's end alone", y, ENDED, 1);
     }
 
+    /** A question whose FIRST is kept from a for some 1200 microseconds, as the tester sees errors, so that its sender ends; then one is kept from b. */
+    private static CarHouse keptFirst(int second) {
+        CarHouse x = Checks.carOf("controller a", "controller b");
+        for (int t = 10; t < 1200; t += 11) {
+            x.flip(2, t);
+        }
+        for (int t = 1400; second > 0 && t < 2600; t += 11) {
+            x.flip(2, t);
+        }
+        Checks.say(x, 1, 2, 3, 4, 5, 6, 7, 8);
+        x.ask(0);
+        x.run(1001);
+        counts("the first question's sender", x, ENDED, 1);
+        return x;
+    }
+
+    /** The second question begins in the very microsecond in which the first one's FIRST is taken: its sender and that one's receiver end at one time. */
+    private static void twoSidesAtOnce() {
+        int taken = untilTaken(keptFirst(0), 0, 1);
+        for (int early = 0; early < 2; early++) {
+            CarHouse x = keptFirst(1);
+            x.run(taken - 1 - early - x.time());
+            Checks.say(x, 1, 2, 3, 4, 5, 6, 7, 8);
+            x.ask(1);
+            x.run(999);
+            Checks.due("999 ticks", 1, x::asking);
+            counts("999 ticks", x, ENDED, 1);
+            Checks.due("b took FIRST of the first question, and nothing else", 1, () -> x.node(1, 2));
+            x.run(1);
+            Checks.due("1000 ticks", -1, x::asking);
+            counts("1000 ticks: that counts once", x, ENDED, 2);
+            x.run(100);
+            counts("and that is all", x, ENDED, 2);
+        }
+    }
+
     /**
      * Message 5 goes to the receiver that waits for the rest of message 1: that one's receiving ends, and with it what is asked.
      * Messages 1 and 2 are questions whose senders ended before their frames came through; 3 is a question, 4 its answer.
@@ -290,10 +328,63 @@ public final class Promise23Test {
             }
             counts("with it the receiving of message 1 ends", x, ENDED, 3);
             Checks.due("and what is asked", -1, x::asking);
-            x.run(700);
+            x.run(900);
             Checks.due("its answer is passed over", 0, x::answers);
             counts("one answer", x, ANSWERS, 1);
+            // Of eight octets it is received anew: FLOWs for 1, 2 and 5, and the answers 4 and 6.
+            Checks.due("what the tester took in all", octets == 1 ? 4 : 5, () -> x.node(1, 2));
         }
+    }
+
+    /** Message 1 is a question to b of two frames, 2 a question to a with its answer 3, 4 one with the answer 5 of two frames. */
+    private static CarHouse fiveMessages(int... nodesAndTimes) {
+        CarHouse x = Checks.carOf("controller a", "controller b", "task t a 1 20000 0 1", "chart c t 1", "datum c d 5");
+        for (int i = 0; i < nodesAndTimes.length; i += 2) {
+            x.flip(nodesAndTimes[i], nodesAndTimes[i + 1]);
+        }
+        Checks.say(x, 1, 2, 3, 4, 5, 6, 7, 8);
+        x.ask(1);
+        if (nodesAndTimes.length > 0) {
+            x.run(1500);
+            Checks.same("message 3", "89 0", Checks.asked(x, 0, 400, 25));
+            Checks.say(x, 34, 1, 0);
+            x.ask(0);
+        }
+        return x;
+    }
+
+    private static int untilTaken(CarHouse x, int node, int frames) {
+        while (x.node(node, 2) < frames && x.time() < 9000) {
+            x.run(1);
+        }
+        return x.time();
+    }
+
+    /**
+     * The last frames of messages 1 and 5 are kept from b and from the tester, by flips at their sixth END, and from being sent again, by flips at the
+     * senders' seventh. Then b is shown a frame by which that of message 1 reaches the receiver that waits for the rest of message 5: that one's
+     * time goes on from its FIRST, as if nothing had come.
+     */
+    private static void othersDoNothing() {
+        int one = untilTaken(fiveMessages(), 1, 2) - 1;
+        int five = untilTaken(fiveMessages(1, one, 2, one + 1), 2, 4) - 1;
+        CarHouse x = fiveMessages(1, one, 2, one + 1, 2, five, 0, five + 1);
+        counts("the receiver of message 1", x, ENDED, 1);
+        int reached = untilTaken(x, 2, 3);
+        x.run(five + 60 - x.time());
+        Checks.due("all frames are DONE", 0, () -> x.node(0, 1) + x.node(1, 1) + x.node(2, 1));
+        Checks.due("the tester misses one", 3, () -> x.node(2, 2));
+        int before = x.node(1, 2);
+        new Shown(0, 1538, 8).show(x, 1);
+        untilTaken(x, 1, before + 1);
+        Checks.due("b took what it was shown", before + 1, () -> x.node(1, 2));
+        Checks.due("later than FIRST came", 1, () -> x.time() > reached + 300 ? 1 : 0);
+        x.run(reached + 998 - x.time());
+        Checks.due("999 ticks behind FIRST: still asked", 0, x::asking);
+        counts("999 ticks behind FIRST", x, ENDED, 1);
+        x.run(1);
+        Checks.due("1000 ticks: not any more", -1, x::asking);
+        counts("1000 ticks", x, ENDED, 2);
     }
 
     /**

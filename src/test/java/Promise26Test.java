@@ -163,15 +163,22 @@ public final class Promise26Test {
         Checks.due("one answer", 1, () -> x.counted(3));
     }
 
-    /** Three questions behind 96 messages: the answer to the second one is the 100th, so there is none for the answer to the third one. */
+    /**
+     * Three questions behind 96 messages: the answer to the second one is the 100th, so there is none for the answer to the third one.
+     * That one, 20, clears all the same: the watch, which failed at 6000 and 12000, fails at 18000 once more, for the first time since.
+     */
     private static void noMessageForTheAnswer() {
-        CarHouse x = two();
+        CarHouse x = Checks.carOf("controller a", "controller b", "task t a 1 20000 0 1", "chart c t 1", "datum c d 5", "signal s 8 c d 2000", "watch s b 9");
+        x.silence(0, true);
         for (int i = 0; i < 48; i++) {
             Checks.asked(x, i % 2, 250, 16, 2);
         }
         Checks.due("48 answers", 48, () -> x.counted(3));
         threeQuestions(x, 0, 1);
+        Checks.due("the watch failed", 1, () -> x.trouble(0, 4));
         x.run(20000 - x.time());
+        Checks.due("the third question was heeded: no entry", -1, () -> x.trouble(0, 4));
+        Checks.due("and a status as at first", 80, () -> x.trouble(0, 0));
         Checks.due("both questions were taken, and the tester took the 100th message", 48, () -> x.counted(3));
         asks("the third question stays asked", x, 1);
         Checks.due("without an answer", 0, x::answers);

@@ -17,6 +17,9 @@ public final class Promise27Test {
         lengths();
         unknown();
         troubles();
+        whatClearingLeaves();
+        nodesInOrder();
+        passedSince();
         refusals();
         Checks.end("Promise27Test");
     }
@@ -300,6 +303,82 @@ public final class Promise27Test {
         Checks.asked(x, 0, 600, 34, 1, 0);
         Checks.say(x, 1);
         return x;
+    }
+
+    /** The events that there were stay counted, and the watch waits on from what it noted: it failed at 1500 and 3000, and does so at 4500 and 6000. */
+    private static void whatClearingLeaves() {
+        CarHouse x = Checks.carOf("controller a", "controller b", "task t a 1 20000 0 1", "chart c t 1", "datum c d 5", "signal s 8 c d 500", "watch s b 9");
+        x.silence(0, true);
+        x.run(3000);
+        Checks.due("failed by its second event", 2, () -> x.trouble(0, 2));
+        answers("clearing", x, 1, "84", 20);
+        Checks.due("no entry", -1, () -> x.trouble(0, 2));
+        x.run(4499 - x.time());
+        Checks.due("nothing yet", 80, () -> x.trouble(0, 0));
+        x.run(1501);
+        Checks.due("it failed again at 6000", 1, () -> x.trouble(0, 0) & 1);
+        Checks.due("by the fourth event", 4, () -> x.trouble(0, 2));
+        CarHouse twin = Checks.carOf("controller a", "controller b", "task t a 1 20000 0 1", "chart c t 1", "datum c d 5", "signal s 8 c d 500", "watch s b 9");
+        twin.silence(0, true);
+        twin.run(3000);
+        answers("clearing", twin, 1, "84", 20);
+        twin.run(5999 - twin.time());
+        Checks.due("not before", 80, () -> twin.trouble(0, 0));
+    }
+
+    private static String[] watched(int controller) {
+        return new String[] {"controller a", "controller b", "controller k", "task t k 1 20000 0 1", "chart c t 1", "datum c d 5", "signal s 8 c d 500",
+            "watch s " + (controller == 0 ? "a" : "b") + " 9"};
+    }
+
+    /** k is silent up to here, so that the watch failed at 1500 and at 3000; then 25 is asked. */
+    private static CarHouse asksOf(int controller, int... nodesAndTimes) {
+        CarHouse x = Checks.carOf(watched(1 - controller));
+        x.silence(2, true);
+        for (int i = 0; i < nodesAndTimes.length; i += 2) {
+            x.flip(nodesAndTimes[i], nodesAndTimes[i + 1]);
+        }
+        x.run(3100);
+        Checks.say(x, 25);
+        x.ask(controller);
+        return x;
+    }
+
+    /**
+     * The question is kept from its controller. Then flips show the other one a frame with the watched signal, and, in one bit time, that one again
+     * and the first one the question's: the test passes by it, before the question is answered if that node is the first of both.
+     */
+    private static void nodesInOrder() {
+        for (int asked = 0; asked < 2; asked++) {
+            int controller = asked;
+            CarHouse twin = asksOf(controller);
+            while (twin.node(controller, 2) == 0) {
+                twin.run(1);
+            }
+            int missed = twin.time() - 1;
+            int from = missed + 60;
+            CarHouse x = new Views(() -> asksOf(controller, controller, missed, 3, missed + 1), 4, from, 340).show(1 - controller, new Shown(0, 64, 8), from + 150)
+                .show(1 - controller, new Shown(0, 64, 8), from + 330).show(controller, new Shown(0, 1536 + 2 * controller, 8), from + 330).end();
+            Checks.due("the question came by what was shown alone", 1, () -> x.node(controller, 2));
+            Checks.due("the test passed", 38, () -> x.trouble(0, 0));
+            x.run(500);
+            Checks.same("node " + controller + " is asked", controller == 0 ? "89 1 1 39" : "89 1 1 38", Checks.answerOf(x));
+        }
+    }
+
+    /** The statuses of entries are those of now: passed in this cycle, not tested in the next one, failed again in that. */
+    private static void passedSince() {
+        CarHouse x = Checks.carOf(watched(1));
+        x.silence(2, true);
+        x.run(3000);
+        x.silence(2, false);
+        x.run(1400);
+        answers("passed", x, 0, "89 1 1 38", 25);
+        x.silence(2, true);
+        x.cycle(true);
+        answers("not tested in this cycle", x, 0, "89 1 1 100", 25);
+        x.run(3000);
+        answers("failed in a second cycle", x, 1, "89 1 1 " + (1 + 2 + 4 + 8 + 32 + 128), 25);
     }
 
     private static void refusals() {
