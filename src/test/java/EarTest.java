@@ -1,3 +1,5 @@
+import java.util.Arrays;
+
 /**
  * Promises 12 to 14 and 19: frames of every kind, shown to one node by flips, since a car sends but one kind.
  * The bus is still but for that node's acknowledging, which makes the others flag from six bits behind it on.
@@ -16,6 +18,8 @@ public final class EarTest {
         passedOver();
         protectedOnes();
         transferred();
+        oneBehindAnother();
+        onlyAtAcknowledge();
         Checks.end("EarTest");
     }
 
@@ -175,5 +179,40 @@ public final class EarTest {
         Checks.due("b has nothing to send", 0, () -> y.node(1, 1));
         y.run(600);
         Checks.same("it comes again", "80 2", Checks.answerOf(y));
+    }
+
+    /** Frames whose check is 0 before COUNT, as the one that was told so far is: the node puts 0 at ACKNOWLEDGE alone. */
+    private static void onlyAtAcknowledge() {
+        int[][] octets = {{1, 13, 138}, {0, 100, 114}};
+        for (int kind = 2; kind <= 3; kind++) {
+            int identifier = kind == 2 ? 85 : 12345678;
+            Checks.due("the check before COUNT", 0, new Shown(kind, identifier, 3, octets[kind - 2])::register);
+            CarHouse x = Checks.carOf("controller a");
+            int acknowledge = new Shown(kind, identifier, 3, octets[kind - 2]).show(x, 0);
+            x.run(acknowledge + 8);
+            StringBuilder zeros = new StringBuilder();
+            for (int t = 0; t <= acknowledge + 6; t++) {
+                zeros.append(x.bit(t) == 0 ? " " + (t - acknowledge) : "");
+            }
+            Checks.same("the zeros on the bus, from ACKNOWLEDGE on", " 0", zeros.toString());
+            Checks.due("it was taken", 1, () -> x.node(0, 2));
+        }
+    }
+
+    /** Whatever a node took before, the next frame is read by its own bits alone. */
+    private static void oneBehindAnother() {
+        for (int first = 0; first < 36; first++) {
+            for (int second = 0; second < 6; second++) {
+                CarHouse x = Checks.carOf("controller a", "controller b", "task t b 1 20000 0 1", "chart c t 1", "datum c d 5", "signal s 64 c d 5000",
+                    "task u a 1 20000 0 1", "chart e u 1", "datum e f 0", "read s e f 1");
+                int[] octets = new int[8];
+                Arrays.fill(octets, new int[] {0, 255, 85, 15, 51, 1}[first / 6]);
+                x.run(new Shown(first % 6, first % 6 % 2 == 1 ? 268435455 : 85, 5, octets).show(x, 0) + 60);
+                Checks.due("the first frame, of kind " + first % 6, 1, () -> x.node(0, 2));
+                x.run(new Shown(second, second % 2 == 1 ? 268435455 : 64, 8, 1, 2, 3, 4, 5, 6, 7, 8).show(x, 0) + 60);
+                Checks.due("the second one, of kind " + second, 2, () -> x.node(0, 2));
+                Checks.due("its octets", second == 0 ? 0x0807060504030201L : 0, () -> x.value(1, 0));
+            }
+        }
     }
 }

@@ -1,3 +1,6 @@
+import java.util.List;
+import java.util.function.ToLongFunction;
+
 /**
  * Promise 4, system, to its edges: each number of a text at its bounds and one past them, each count at its most and one more,
  * each word missing, wrong, or too many; the order of faults; and what is left of the car before.
@@ -27,6 +30,7 @@ public final class Promise04Test {
         wholeText();
         sixteenTimes();
         insteadOfTheOneBefore();
+        whateverWasBefore();
         openRights();
         countersOfFrames();
         unfinishedMessages();
@@ -489,6 +493,48 @@ public final class Promise04Test {
         Checks.same("the first wrong key", "127 39 53", Checks.asked(x, 0, 900, 39, 2, 0, 0, 0, 0));
     }
 
+    /** A core with more to do than it can, chains that are stopped, a full QUEUE, guards by zero, and a watch. */
+    private static String busy(String edge) {
+        return "controller a\ncontroller b\ntask t a 3 500 0 400\ntask u a 2 500 100 400\ntask v a 2 700 90 50\ntask w b 1 1000 300 10\nchart c t 0\nchart e w 5\n"
+            + "datum c d 7\nstate c s top plain\nstate c r top plain\nedge c s r 0\nafter c s 1\n" + edge + "\ntake c d 1 more\ndatum e f 0\ndatum e z 0\n"
+            + "state e s top plain\nedge e s s 9 if f div z\nsignal g 8 c d 500\n" + Faults.many(20, "read g e f 9") + "watch g b 9";
+    }
+
+    /** Not the same text before, and not the same calls: what a car does is told by its own text alone. */
+    private static void whateverWasBefore() {
+        String still = busy("edge c r s 9");
+        String moving = busy("edge c s s time");
+        String marks = "controller a\ncontroller b\ntask t a 1 500 0 5\ntask u b 1 500 0 5\nchart c t 5\nchart e u 5\nstate c h top history\nstate c s top split\n"
+            + "state c p s plain\nstate c q s plain\nedge c s h 0\nstate e f top fork\n";
+        String[] texts = {still, moving, marks};
+        for (String before : texts) {
+            for (String text : texts) {
+                for (int micros : new int[] {450, 910, 1750, 6000, 7777}) {
+                    CarHouse x = Checks.carOf(before);
+                    x.silence(0, micros == 6000);
+                    x.run(micros);
+                    x.cut(0);
+                    Checks.tell(x, text);
+                    Checks.due("another car", 0, x::system);
+                    sameLife(x, Checks.carOf(text), micros == 7777 ? 0 : 1200);
+                }
+            }
+        }
+    }
+
+    /** From some time on a is silent, so that the watch fails: 1500 behind the last frame, or behind 0. */
+    private static void sameLife(CarHouse x, CarHouse twin, int silent) {
+        for (CarHouse each : new CarHouse[] {x, twin}) {
+            each.run(silent);
+            each.silence(0, true);
+        }
+        for (int i = 0; i < 6; i++) {
+            x.run(611);
+            twin.run(611);
+            Checks.same("whatever was before", Story.faceOf(twin), Story.faceOf(x));
+        }
+    }
+
     /** Rights, an open seed and three wrong keys are of the car before; they would show without a session being begun. */
     private static void openRights() {
         String[] car = {"controller a", "controller b", "task t a 1 20000 0 1", "chart c t 1", "datum c d 1"};
@@ -584,6 +630,12 @@ public final class Promise04Test {
         Checks.due("what was asked is said no more", 1, () -> x.say((byte) 1));
     }
 
+    private static List<ToLongFunction<CarHouse>> callsOfFirsts() {
+        return List.of(x -> x.frame(0, 0), x -> x.signal(0, true), x -> x.bit(0), x -> x.node(0, 0), x -> x.error(-1, 0), x -> x.error(0, 0),
+            x -> Checks.done(() -> x.flip(0, 0)), x -> x.running(0, 0), x -> x.task(0, 0), x -> x.active(0, 0), x -> x.value(0, 0), x -> x.chart(0, 0),
+            x -> x.trouble(0, 0), x -> x.answer(0));
+    }
+
     private static void noCarBehindAFault() {
         CarHouse x = Checks.carOf(RICH);
         Checks.say(x, 25);
@@ -597,6 +649,9 @@ public final class Promise04Test {
         Checks.thrown("no time goes by", IllegalStateException.class, () -> x.run(0));
         Checks.thrown("no cycle ends", IllegalStateException.class, () -> x.cycle(true));
         Checks.thrown("nobody is there to be silent", IndexOutOfBoundsException.class, () -> x.silence(0, true));
+        for (ToLongFunction<CarHouse> call : callsOfFirsts()) {
+            Checks.thrown("nothing is there of the lines before the fault", IndexOutOfBoundsException.class, () -> call.applyAsLong(x));
+        }
         Checks.thrown("nor to be asked", IndexOutOfBoundsException.class, () -> x.ask(0));
         Checks.thrown("nor a node", IndexOutOfBoundsException.class, () -> x.node(0, 0));
     }

@@ -13,6 +13,7 @@ public final class Promise08Test {
         firstPossible();
         frameNumbers();
         refusals();
+        behindOthers();
         Checks.end("Promise08Test");
     }
 
@@ -112,6 +113,21 @@ public final class Promise08Test {
             Checks.due("signal " + s + " of forty", s, () -> forty.signal(s, false));
         }
         Checks.thrown("signal(40, false)", IndexOutOfBoundsException.class, () -> forty.signal(40, false));
+    }
+
+    /** What was packed before, of another period or controller, takes no room of those that come behind: eight octets of one frame. */
+    private static void behindOthers() {
+        String head = "controller a\ncontroller b\ntask t a 1 20000 0 1\ntask u b 1 20000 0 1\nchart c t 1\nchart e u 1\ndatum c d 1\ndatum e f 1\n";
+        String[] before = {"signal m 64 c d 500\nsignal n 64 c d 500\n", "signal m 56 c d 500\n", Faults.many(9, "signal m% 64 c d 500")};
+        for (String first : before) {
+            int frames = first.split("\n").length;
+            CarHouse period = Checks.carOf(head + first + Faults.many(8, "signal s% 8 c d 600"));
+            Checks.due("eight of another period", frames + 1, () -> period.count(4));
+            CarHouse controller = Checks.carOf(head + first + Faults.many(8, "signal s% 8 e f 500"));
+            Checks.due("eight of another controller", frames + 1, () -> controller.count(4));
+            CarHouse few = Checks.carOf(head + first + Faults.many(7, "signal s% 8 e f 500"));
+            Checks.due("seven of another controller", frames + 1, () -> few.count(4));
+        }
     }
 
     private static void refusals() {

@@ -155,6 +155,12 @@ public final class Promise18Test {
         // Entered at 4, never left: a at 4, b at 6, a at 8, .., b at 1002 by the 500th edge.
         is("whenever it was entered", later, 0, 4);
         Checks.due("a each fourth tick", 250, () -> later.value(0, 0));
+        // Into a history once, then, at 42, into the one that it is in: that is the default again.
+        CarHouse direct = chart(5, "datum x n 0", "state x off top plain", "state x on top plain", "state x a on plain", "state x b on plain", "state x h on history",
+            "after x off 10", "edge x off h time if n eq 1", "edge x off on time if n ne 1", "after x a 3", "edge x a b time if n lt 2", "after x on 10",
+            "edge x on off time if n lt 2", "leave x on n 1 more");
+        direct.run(1002);
+        is("a history of an edge before is none of this one's", direct, 0, 3);
         // on is left at 22 with a and a2 in it, a at 37 with a2; by the edge from b to the deep one, at 39, on is the domain.
         for (String kind : new String[] {"history", "deep"}) {
             CarHouse domain = chart(5, "datum x n 0", "state x off top plain", "state x on top plain", "state x a on plain", "state x a1 a plain",
@@ -256,6 +262,10 @@ public final class Promise18Test {
             is("a " + mark + " behind a fork", none, 0, 7);
             Checks.due("does not", 11, () -> none.value(0, 0));
         }
+        CarHouse elsewhere = chart(5, left, "state x f top fork", "edge x p1 f 0", "edge x f w 0");
+        elsewhere.run(2);
+        is("a fork that stands elsewhere", elsewhere, 0, 7);
+        Checks.due("o is around the source and where it leads to", 11, () -> elsewhere.value(0, 0));
         CarHouse waits = chart(5, left, "state x j top join", "edge x w j 0", "edge x p1 j 0", "edge x q1 j 0", "edge x j z 0");
         waits.run(1002);
         is("the first edge of all is from one that is not active", waits, 0, 2);

@@ -8,6 +8,8 @@ public final class Promise19Test {
         wrapping();
         atOnce();
         withoutRoomForEvents();
+        timeOfAnEvent();
+        timeOfOthers();
         ticks();
         orderOfActs();
         orderOfEdges();
@@ -128,6 +130,34 @@ public final class Promise19Test {
         Checks.due("all of the next frame are lost", 18, () -> x.counted(2));
         Checks.due("the first one's next value", 6, () -> x.value(1, 0));
         Checks.due("the last one's", 6, () -> x.value(1, 1));
+    }
+
+    /** What an event enters is entered at its own time: 1002, not when the call before was, nor when the last of the times was due. */
+    private static void timeOfAnEvent() {
+        for (String more : new String[] {"", "after y s 100\nedge y s r time\n"}) {
+            CarHouse x = Checks.carOf("controller a", "controller b", "task t a 1 20000 0 1", "task u b 1 1000 0 1", "chart x t 5", "datum x n 5", "chart y u 5",
+                "datum y d 0", "datum y k 0", "signal g 8 x n 500", "read g y d 9", "state y s top plain", "state y r top plain", "state y z top plain",
+                "state y w top plain", more + "edge y s z 9", "edge y r z 9", "after y z 1500", "edge y z w time", "take y k 1");
+            x.run(1002);
+            Checks.due("the event happened", 3, () -> x.active(1, 0));
+            x.run(1000);
+            Checks.due("1000 behind it", 0, () -> x.value(1, 1));
+            x.run(1000);
+            Checks.due("2000 behind it", 1, () -> x.value(1, 1));
+        }
+    }
+
+    /** The time of a state that is not active, or is not any more, does not speak: no chain comes by it, though the datum would let one. */
+    private static void timeOfOthers() {
+        for (String more : new String[] {"after y r 100", "after y q 300\nedge y q s 0"}) {
+            CarHouse x = Checks.carOf("controller a", "controller b", "task t a 1 20000 0 1", "task u b 1 1000 0 1", "chart x t 5", "datum x n 5", "chart y u 5",
+                "datum y d 0", "signal g 8 x n 500", "read g y d 0", more.contains(" q ") ? "state y q top plain" : "", "state y s top plain", "state y r top plain",
+                "edge y s r 0 if d eq 5", more);
+            int s = more.contains(" q ") ? 2 : 1;
+            x.run(1002);
+            Checks.due("the datum came", 5, () -> x.value(1, 0));
+            Checks.due("nothing speaks, so nothing follows", s, () -> x.active(1, 0));
+        }
     }
 
     private static void ticks() {

@@ -19,6 +19,7 @@ public final class Promise27Test {
         troubles();
         whatClearingLeaves();
         nodesInOrder();
+        octetsOfItsOwn();
         passedSince();
         refusals();
         Checks.end("Promise27Test");
@@ -363,6 +364,18 @@ public final class Promise27Test {
             Checks.due("the test passed", 38, () -> x.trouble(0, 0));
             x.run(500);
             Checks.same("node " + controller + " is asked", controller == 0 ? "89 1 1 39" : "89 1 1 38", Checks.answerOf(x));
+        }
+    }
+
+    /** What stood behind a question's octets in the car before is no octet of it. */
+    private static void octetsOfItsOwn() {
+        for (int first : new int[] {20, 25, 16, 39}) {
+            for (int second = 0; second <= 3; second++) {
+                CarHouse x = Checks.carOf("controller a");
+                Checks.asked(x, 0, 600, first, second, 0, 0, 0, 0);
+                x.system();
+                answers("one octet, where two or more were", x, 0, first == 20 ? "84" : first == 25 ? "89 0" : "127 " + first + " 19", first);
+            }
         }
     }
 

@@ -83,6 +83,15 @@ final class Shown {
         return stuffed;
     }
 
+    /** The check's register behind the octets of a flexible frame, before COUNT. */
+    int register() {
+        stuff(plain, false);
+        int register = count() <= 16 ? check(wire, 17, 92251) : check(wire, 21, 1058969);
+        wire.clear();
+        at.clear();
+        return register;
+    }
+
     List<Integer> lay() {
         if (kind == 2 || kind == 3) {
             layFlexible();
