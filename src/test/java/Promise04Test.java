@@ -506,7 +506,8 @@ public final class Promise04Test {
         String moving = busy("edge c s s time");
         String marks = "controller a\ncontroller b\ntask t a 1 500 0 5\ntask u b 1 500 0 5\nchart c t 5\nchart e u 5\nstate c h top history\nstate c s top split\n"
             + "state c p s plain\nstate c q s plain\nedge c s h 0\nstate e f top fork\n";
-        String[] texts = {still, moving, marks};
+        String bare = "controller a\ncontroller b\ntask t a 1 500 0 5\nchart c t 5\ndatum c d 7\nstate c s top plain\nedge c s s 9\nedge c s s time\nafter c s 100\n";
+        String[] texts = {still, moving, marks, bare};
         for (String before : texts) {
             for (String text : texts) {
                 for (int micros : new int[] {450, 910, 1750, 6000, 7777}) {

@@ -18,6 +18,7 @@ public final class Promise12Test {
         behindArbitration();
         rows();
         firstOfARow();
+        firstByIdentifiers();
         sixControllers();
         stuffBitsOfFlexibleOnes();
         Checks.end("Promise12Test");
@@ -265,6 +266,26 @@ public final class Promise12Test {
                 Checks.due("octet " + octet + (lesser == 0 ? ": in their order" : ": the second one first"), lesser == 0 ? second : first, () -> x.value(1, 0));
             }
         }
+    }
+
+    /** The frame of 700 waits, since its sender sees errors, up to the one of 1000, which comes before it: 64 before 72. */
+    private static void firstByIdentifiers() {
+        CarHouse x = car("datum c g 99", "signal r 16 c g 700", "read s e f 1", "read r e f 1");
+        x.run(690);
+        Checks.due("that of 500 came", 4660, () -> x.value(1, 0));
+        for (int t = 700; t < 1010; t += 8) {
+            x.flip(0, t);
+        }
+        x.run(320);
+        Checks.due("two wait", 2, () -> x.node(0, 1));
+        while (x.node(1, 2) < 2) {
+            x.run(1);
+        }
+        Checks.due("the first one has the value of 500", 4660, () -> x.value(1, 0));
+        while (x.node(1, 2) < 3) {
+            x.run(1);
+        }
+        Checks.due("the second one that of 700", 99, () -> x.value(1, 0));
     }
 
     /** The number of stuff bits is told modulo 8: frames with none of them up to a hundred, of 17 bits of check (16 octets) and of 21 (20). */

@@ -243,6 +243,10 @@ public final class Promise18Test {
         join.run(2);
         is("a join that stands elsewhere", join, 0, 7);
         Checks.due("o is around those that it waits for and the target", 11, () -> join.value(0, 0));
+        CarHouse lastEdge = chart(5, left, "state x j top join", "edge x j w 0", "edge x p1 j 0");
+        lastEdge.run(2);
+        is("the only edge to it is the last of all", lastEdge, 0, 7);
+        Checks.due("o is around its state and the target", 11, () -> lastEdge.value(0, 0));
         CarHouse out = chart(5, left, "state x j s join", "edge x p1 j 0", "edge x q1 j 0", "edge x j z 0");
         out.run(2);
         is("a join that leads out", out, 0, 8);
@@ -293,6 +297,11 @@ public final class Promise18Test {
             "edge x a b 0 if n eq 0", "take x n 1", "edge x a1 z 0 if n eq 0", "take x n 2");
         wide.run(2);
         is("the deeper state's edge, though its domain is the chart", wide, 0, 5);
+        CarHouse inner = chart(5, "datum x n 0", "state x z top plain", "state x o top plain", "state x a o plain", "edge x z o 0 if n eq 0", "take x n 1",
+            "edge x a a 0 if n eq 1", "take x n 2", "edge x o z 0 if n eq 1", "take x n 3");
+        inner.run(2);
+        is("all that both would leave is the last of the states", inner, 0, 3);
+        Checks.due("the deeper one's edge alone", 2, () -> inner.value(0, 0));
         // The second edge is not taken because of the first one, so what it would leave is free for the third one.
         CarHouse third = chart(5, split, "edge x p1 p2 0 if n eq 0", "take x n 1", "edge x p1 z 0 if n eq 0", "edge x q1 q2 0 if n eq 0");
         third.run(2);

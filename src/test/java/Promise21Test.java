@@ -343,6 +343,11 @@ public final class Promise21Test {
         tells("the last one is new", x, 0, LAST, 17);
         tells("the other one's", x, 1, LAST, 18);
         entries("in their places", x, 1, 2);
+        CarHouse others = Checks.carOf("controller a", "controller b", "controller k", "task t b 1 20000 0 1", "task u k 1 20000 0 1", "chart c t 1", "chart e u 1",
+            "datum c d 5", "datum e f 5", "signal g 8 c d 500", "signal z 8 e f 500", "watch z a 9");
+        others.silence(2, true);
+        others.run(3000);
+        tells("a frame that nobody watches is no event", others, 0, FIRST, 2);
         CarHouse gone = passedAgain("watch s b 9");
         gone.cycle(true);
         gone.run(500);
@@ -362,6 +367,11 @@ public final class Promise21Test {
         tells("entry 29 there is none", x, 29, ENTRY, -1);
         tells("the sixtieth event", x, 29, FIRST, 60);
         Checks.thrown("there is no thirty-first", IndexOutOfBoundsException.class, () -> x.trouble(30, ENTRY));
+        int cycles = x.cycle(true);
+        Checks.due("a cycle of thirty", cycles + 1, () -> x.cycle(false));
+        tells("the thirtieth, not tested in it", x, 29, STATUS, 101);
+        Checks.same("all thirty are cleared", "84", Checks.asked(x, 0, 600, 20));
+        tells("the thirtieth", x, 29, STATUS, 80);
     }
 
     private static void refusals() {
