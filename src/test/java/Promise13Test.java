@@ -172,6 +172,16 @@ public final class Promise13Test {
         told("the last but one", x, 478, FORM, 0, 14 + 8 * 238);
         told("the last one", x, 479, FORM, 1, 14 + 8 * 238);
         Checks.thrown("none behind it", IndexOutOfBoundsException.class, () -> x.error(480, 0));
+        // All seven clear from 30 on: what one sees there makes it flag, which the others see, up to clearing again nine bits later.
+        CarHouse seven = Checks.carOf(Faults.many(6, "controller q%"));
+        seven.flip(0, 10);
+        for (int k = 0; k < 470; k++) {
+            seven.flip(0, 30 + 9 * k);
+        }
+        seven.run(4300);
+        Checks.due("as many as 500 calls can make", 7 * 471, () -> seven.error(-1, 0));
+        told("the one that saw it first", seven, 7 * 470, FORM, 0, 30 + 9 * 469);
+        told("the last one", seven, 7 * 471 - 1, FORM, 6, 31 + 9 * 469);
     }
 
     private static void refusals() {

@@ -247,6 +247,10 @@ public final class Promise18Test {
         lastEdge.run(2);
         is("the only edge to it is the last of all", lastEdge, 0, 7);
         Checks.due("o is around its state and the target", 11, () -> lastEdge.value(0, 0));
+        CarHouse firstEdge = chart(5, left, "state x j top join", "edge x p1 j 0", "edge x j w 0");
+        firstEdge.run(2);
+        is("the only edge to it is the first of all", firstEdge, 0, 7);
+        Checks.due("o is around its state and the target", 11, () -> firstEdge.value(0, 0));
         CarHouse out = chart(5, left, "state x j s join", "edge x p1 j 0", "edge x q1 j 0", "edge x j z 0");
         out.run(2);
         is("a join that leads out", out, 0, 8);
@@ -302,6 +306,11 @@ public final class Promise18Test {
         inner.run(2);
         is("all that both would leave is the last of the states", inner, 0, 3);
         Checks.due("the deeper one's edge alone", 2, () -> inner.value(0, 0));
+        CarHouse single = chart(5, "datum x n 0", "state x s top plain", "state x a top plain", "state x b top plain", "edge x s b 0", "take x n 1 more",
+            "edge x s a 0", "take x n 10 more");
+        single.run(2);
+        is("of two from the first of the states the first one", single, 0, 3);
+        Checks.due("and that alone", 1, () -> single.value(0, 0));
         // The second edge is not taken because of the first one, so what it would leave is free for the third one.
         CarHouse third = chart(5, split, "edge x p1 p2 0 if n eq 0", "take x n 1", "edge x p1 z 0 if n eq 0", "edge x q1 q2 0 if n eq 0");
         third.run(2);

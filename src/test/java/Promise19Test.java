@@ -7,6 +7,7 @@ public final class Promise19Test {
         sums();
         wrapping();
         atOnce();
+        fortyFrames();
         withoutRoomForEvents();
         timeOfAnEvent();
         timeOfOthers();
@@ -118,6 +119,30 @@ public final class Promise19Test {
     }
 
     /** A time speaks when the state was entered so long ago, or longer, when the task is done; not one tick before. */
+    /** Each of forty frames brings its own value to the other controller, with a key and without. */
+    private static void fortyFrames() {
+        for (String protect : new String[] {"", "protect a 9000 5"}) {
+            StringBuilder lines = new StringBuilder("controller a\ncontroller b\ntask t a 1 20000 0 1\ntask u a 1 20000 0 1\ntask v b 1 20000 0 1\ntask w b 1 20000 0 1\n"
+                + "chart c0 t 1\nchart c1 u 1\nchart e0 v 1\nchart e1 w 1\n");
+            for (int i = 0; i < 40; i++) {
+                String place = i / 20 + " d" + i;
+                lines.append("datum c").append(place).append(' ').append(1000 + 77 * i).append("\ndatum e").append(place).append(" 0\n");
+            }
+            for (int i = 0; i < 40; i++) {
+                lines.append("signal s").append(i).append(protect.isEmpty() ? " 64 c" : " 24 c").append(i / 20).append(" d").append(i).append(" 9000\n");
+                lines.append("read s").append(i).append(" e").append(i / 20).append(" d").append(i).append(" 0\n");
+            }
+            CarHouse x = Checks.carOf(lines.toString(), protect);
+            x.run(9000);
+            Checks.due("forty frames", 40, () -> x.count(4));
+            Checks.due("all came", 40, () -> x.run(6500));
+            for (int i = 0; i < 40; i++) {
+                int n = i;
+                Checks.due("the value of frame " + i, 1000 + 77 * i, () -> x.value(2 + n / 20, n % 20));
+            }
+        }
+    }
+
     /** Seventeen reads of one frame: the last one's event is lost, its value is not; nor is that of the next frame, whose events are all lost. */
     private static void withoutRoomForEvents() {
         CarHouse x = Checks.carOf("controller a", "controller b", "task t a 1 1000 700 1", "chart c t 1", "datum c n 5", "state c s top plain", "enter c s n 6",

@@ -224,6 +224,13 @@ public final class Promise20Test {
             "edge x s o time if z div z");
         unasked.run(1002);
         tells("a guard is asked only where its state is active and its event at hand", unasked, 0, BY_ZERO, 0, HELD, 0, NOT_HELD, 0);
+        // Entered are o, p, p1, p2 and w, of which p was left alone at first; z, q, q1 and the mark never.
+        CarHouse some = chart(5, "state x o top plain", "state x z top plain", "state x p o plain", "state x q o plain", "state x p1 p plain", "state x p2 p plain",
+            "state x q1 q plain", "state x h q history", "state x w o plain", "edge x p1 p2 time", "after x p1 100", "edge x p w time", "after x p 300", "edge x q z 0");
+        some.run(2);
+        tells("at the start", some, 0, ENTERED, 3, TAKEN, 0);
+        some.run(1000);
+        tells("behind edges in p and in o", some, 0, ENTERED, 5, TAKEN, 2);
         CarHouse fork = chart(5, "datum x z 0", "state x a top plain", "state x b top plain", "state x f top fork", "edge x a f 0", "edge x f b 0 if z div z",
             "edge x f a 9 if z ne z");
         fork.run(2);

@@ -18,6 +18,7 @@ public final class Promise23Test {
         answers();
         senderWaits();
         receiverWaits();
+        eachReceiverWaits();
         onceForAQuestion();
         twoSidesAtOnce();
         anotherAtTheReceiver();
@@ -156,6 +157,13 @@ public final class Promise23Test {
         x.run(1000);
         counts("each once", x, ANSWERS, 5);
         counts("none ended", x, ENDED, 0);
+        // Four frames for each question and its answer: as many as the time allows.
+        CarHouse many = Checks.carOf(HEAD);
+        for (int i = 1; i <= 36; i++) {
+            Checks.same("answer " + i, "98 1 0 255 255 255 255 255 255 255 255", Checks.asked(many, 0, 550, 34, 1, 0));
+            counts("answer " + i, many, ANSWERS, i);
+        }
+        counts("nothing was lost", many, LOST, 0);
     }
 
     /** The bus is full of frames that come before those of questions. */
@@ -212,6 +220,31 @@ public final class Promise23Test {
             Checks.due("they do nothing", 0, x::answers);
             counts("no answer", x, ANSWERS, 0);
             Checks.due("the controller sent its FLOW alone", 1, () -> x.node(1, 2) + x.node(0, 1));
+        }
+    }
+
+    /** Message 1 to 5, so each of the four receivers: questions, if odd, else answers, of which the second frame does not come. */
+    private static void eachReceiverWaits() {
+        for (int message = 1; message <= 5; message++) {
+            CarHouse x = Checks.carOf("controller a", "task t a 1 20000 0 1", "chart c t 1", "datum c d -1");
+            for (int before = 1; before + 1 < message + message % 2; before += 2) {
+                Checks.same("two messages", "89 0", Checks.asked(x, 0, 300, 25));
+            }
+            boolean question = message % 2 == 1;
+            Checks.say(x, question ? new int[] {255, 255, 255, 255, 255, 255, 255, 255} : new int[] {34, 1, 0});
+            x.ask(0);
+            int taker = question ? 0 : 1;
+            int reached = untilTaken(x, taker, x.node(taker, 2) + 1);
+            untilTaken(x, 1 - taker, x.node(1 - taker, 2) + 1);
+            for (int t = x.time() + 20; t < reached + 1100; t += 11) {
+                x.flip(1 - taker, t);
+            }
+            x.run(reached + 998 - x.time());
+            Checks.due("message " + message + ", 999 ticks", 0, x::asking);
+            counts("message " + message + ", 999 ticks", x, ENDED, 0);
+            x.run(1);
+            Checks.due("message " + message + ", 1000 ticks", -1, x::asking);
+            counts("message " + message + ", 1000 ticks", x, ENDED, 1);
         }
     }
 
