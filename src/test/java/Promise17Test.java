@@ -7,6 +7,7 @@ public final class Promise17Test {
         oneActivation();
         longest();
         readyAndRunning();
+        usedUpAndReady();
         twoActivations();
         thirdIsLost();
         lastTime();
@@ -72,6 +73,31 @@ public final class Promise17Test {
         y.run(1);
         tells("low", y, 0, RUNNING, 1, 0);
         tells("high", y, 1, SUSPENDED, 4, 1);
+    }
+
+    /** A task ends in a step, so only when it is chosen: one that has used all its microseconds is READY while a higher one runs. */
+    private static void usedUpAndReady() {
+        CarHouse x = Checks.carOf("controller a", "task low a 1 20000 0 9", "task high a 2 20000 10 20");
+        x.run(10);
+        tells("low has used all", x, 0, RUNNING, 10, 1);
+        x.run(1);
+        tells("low", x, 0, READY, 10, 1);
+        tells("high", x, 1, RUNNING, 1, 0);
+        x.run(20);
+        tells("low, up to the last microsecond of high", x, 0, READY, 10, 1);
+        tells("high", x, 1, RUNNING, 21, 1);
+        x.run(1);
+        tells("low", x, 0, SUSPENDED, 10, 1);
+        tells("high", x, 1, SUSPENDED, 21, 1);
+        // An activation that comes meanwhile is wanted, and has its turn behind the end, so behind one that became READY before.
+        CarHouse y = Checks.carOf("controller a", "task low a 1 500 0 499", "task other a 1 20000 501 5", "task high a 2 20000 500 20");
+        y.run(521);
+        tells("low", y, 0, READY, 500, 1);
+        y.run(1);
+        tells("other, READY since 501", y, 1, RUNNING, 1, 0);
+        tells("low again", y, 0, READY, 500, 1);
+        y.run(6);
+        tells("then low", y, 0, RUNNING, 501, 1);
     }
 
     /** An activation that comes while the task is at its work is wanted: it begins behind that, without a microsecond between. */

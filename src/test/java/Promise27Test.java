@@ -236,6 +236,14 @@ public final class Promise27Test {
         for (int n = 3; n <= 9; n++) {
             answers("seed " + n, x, 0, seed(n), 39, 1);
         }
+        CarHouse y = Checks.carOf(CAR);
+        Tester.openRights(y, 0);
+        answers("a's second seed", y, 0, seed(2), 39, 1);
+        int[] second = Cmac.keyFor(y);
+        answers("another session of b", y, 1, "80 3", 16, 3);
+        writes("a's rights are open", y, 0, "110 1 0", 1, 0, 77);
+        answers("and its seed is", y, 0, "103 2", second);
+        writes("b's are not", y, 1, "127 46 51", 2, 0, 77);
     }
 
     private static void lengths() {

@@ -323,6 +323,9 @@ public final class TesterTest {
         for (int i = 0; i < 49; i++) {
             Checks.same("question " + i, "80 2", Checks.asked(odd, 0, 260, 16, 2));
         }
+        // Message 5, an answer, ended the receiving of message 1; it is an answer all the same, so nothing was asked any more when that counted.
+        Checks.due("all are counted", 49, () -> odd.counted(3));
+        Checks.due("no question more ended", 1, () -> odd.counted(4));
         Checks.say(odd, 16, 1);
         Checks.thrown("99 messages were made", IllegalStateException.class, () -> odd.ask(0));
     }
